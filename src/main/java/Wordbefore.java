@@ -1883,11 +1883,11 @@ public final class Wordbefore {
     private final int[] typedStarts = new int[MOST_ARGUMENTS];
     private final int[] typedEnds = new int[MOST_ARGUMENTS];
 
-    int name() {
+    int slot() {
       return name;
     }
 
-    int word() {
+    int at() {
       return word;
     }
 
@@ -2072,7 +2072,7 @@ public final class Wordbefore {
 
     /** What comes in for the WORD at w of a row; the arguments of its call stand EXPANDED in the row done. */
     Row make(Call call, Row done, Row row, int w, Tally tally) {
-      int slot = call.name();
+      int slot = call.slot();
       Row body = names.bodyOf(slot);
       made.clear();
       boolean pastes = false;
@@ -2235,7 +2235,7 @@ public final class Wordbefore {
       Call inner = calls[open > 0 && open <= MOST_OPEN ? open - 1 : 0];
       if (open > 0 && !hasWordAtHand(inner)) {
         open--;
-        int w = inner.word();
+        int w = inner.at();
         putIn(w, inner.close() + 1, incoming.make(inner, row, row, w, tally));
         return LOOK_CLOSES;
       }
@@ -2275,7 +2275,7 @@ public final class Wordbefore {
     /** Goes to the argument in which a WORD is to be looked at next; tells whether there is one. */
     private boolean hasWordAtHand(Call call) {
       for (int i = call.current(); i < call.count(); i++) {
-        if (names.isNeeded(call.name(), i) && point < call.end(i)) {
+        if (names.isNeeded(call.slot(), i) && point < call.end(i)) {
           return true;
         }
         call.nextArgument();
@@ -2375,7 +2375,7 @@ public final class Wordbefore {
       done.clear();
       for (int i = 0; i < call.count() && open < MOST_OPEN; i++) {
         int start = done.size();
-        if (names.isNeeded(call.name(), i)) {
+        if (names.isNeeded(call.slot(), i)) {
           Row inner = rows[open + 1];
           inner.clear();
           inner.copyWords(call.typed(), call.typedStart(i), call.typedEnd(i));
