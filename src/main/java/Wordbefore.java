@@ -71,7 +71,8 @@ public final class Wordbefore {
 
   // ---- typing
 
-  public int line(int file, int a, int b, int c, int d, int e) {
+  public int line(int file, int a, int b, int c, int d, int e)
+      throws IndexOutOfBoundsException, IllegalArgumentException, IllegalStateException {
     checkFile(file);
     checkPieces(a, b, c, d, e);
     if (typing.signsOf(a, b, c, d, e) > COLUMNS) {
@@ -85,7 +86,8 @@ public final class Wordbefore {
     return typing.lines(file);
   }
 
-  public int more(int file, int a, int b, int c, int d, int e) {
+  public int more(int file, int a, int b, int c, int d, int e)
+      throws IndexOutOfBoundsException, IllegalArgumentException, IllegalStateException {
     checkFile(file);
     checkPieces(a, b, c, d, e);
     int last = typing.lines(file) - 1;
@@ -107,12 +109,12 @@ public final class Wordbefore {
     typing.type(file, line, e);
   }
 
-  public int strike(int file, int line) {
+  public int strike(int file, int line) throws IndexOutOfBoundsException {
     checkLine(file, line);
     return typing.takeOut(file, line);
   }
 
-  public int empty(int file) {
+  public int empty(int file) throws IndexOutOfBoundsException {
     checkFile(file);
     return typing.takeAll(file);
   }
@@ -158,20 +160,20 @@ public final class Wordbefore {
 
   // ---- reading
 
-  public String piece(int piece) {
+  public String piece(int piece) throws IllegalArgumentException {
     checkPiece(piece);
     out.setLength(0);
     typing.spellPiece(piece, out);
     return out.toString();
   }
 
-  public boolean isApart(int first, int second) {
+  public boolean isApart(int first, int second) throws IllegalArgumentException {
     int one = onlyWord(first);
     int other = onlyWord(second);
     return texts.apart(one, other);
   }
 
-  public int paste(int first, int second) {
+  public int paste(int first, int second) throws IllegalArgumentException {
     int one = onlyWord(first);
     int other = onlyWord(second);
     int pasted = texts.pasted(one, other);
@@ -208,25 +210,25 @@ public final class Wordbefore {
     checkBelow(k, read.size());
   }
 
-  public String text(int file, int line) {
+  public String text(int file, int line) throws IndexOutOfBoundsException {
     checkLine(file, line);
     out.setLength(0);
     typing.spellLine(file, line, out);
     return out.toString();
   }
 
-  public int words(int file, int line) {
+  public int words(int file, int line) throws IndexOutOfBoundsException {
     checkLine(file, line);
     readLine(file, line);
     return read.size();
   }
 
-  public String word(int file, int line, int k) {
+  public String word(int file, int line, int k) throws IndexOutOfBoundsException {
     readWord(file, line, k);
     return spelled(read.spelling(k));
   }
 
-  public int ofWord(int file, int line, int k, int what) {
+  public int ofWord(int file, int line, int k, int what) throws IndexOutOfBoundsException, IllegalArgumentException {
     readWord(file, line, k);
     checkWhat(what, 3);
     switch (what) {
@@ -237,7 +239,7 @@ public final class Wordbefore {
     }
   }
 
-  public int number(int file, int line, int k) {
+  public int number(int file, int line, int k) throws IndexOutOfBoundsException, IllegalStateException {
     readWord(file, line, k);
     int spelling = read.spelling(k);
     long value = texts.kind(spelling) == NUMBER ? texts.value(spelling) : NONE;
@@ -247,13 +249,13 @@ public final class Wordbefore {
     return (int) value;
   }
 
-  public String plain(int file, int line) {
+  public String plain(int file, int line) throws IndexOutOfBoundsException {
     checkLine(file, line);
     readLine(file, line);
     return textOut(read);
   }
 
-  public String quoted(int file, int line) {
+  public String quoted(int file, int line) throws IndexOutOfBoundsException {
     checkLine(file, line);
     readLine(file, line);
     out.setLength(0);
@@ -261,7 +263,7 @@ public final class Wordbefore {
     return out.toString();
   }
 
-  public String again(int file, int line, int k) {
+  public String again(int file, int line, int k) throws IndexOutOfBoundsException {
     checkLine(file, line);
     readLine(file, line);
     readInside();
@@ -292,7 +294,7 @@ public final class Wordbefore {
 
   // ---- running
 
-  public int run(int file) {
+  public int run(int file) throws IndexOutOfBoundsException {
     checkFile(file);
     emptyDesk();
     runner.begin(file);
@@ -312,12 +314,12 @@ public final class Wordbefore {
     return looks;
   }
 
-  public int ofRun(int what) {
+  public int ofRun(int what) throws IllegalArgumentException {
     checkWhat(what, 13);
     return runner.total(what);
   }
 
-  public int ofFile(int file, int what) {
+  public int ofFile(int file, int what) throws IndexOutOfBoundsException, IllegalArgumentException {
     checkFile(file);
     checkWhat(what, 3);
     switch (what) {
@@ -328,12 +330,12 @@ public final class Wordbefore {
     }
   }
 
-  public String outWord(int k) {
+  public String outWord(int k) throws IndexOutOfBoundsException {
     checkBelow(k, runner.out().size());
     return spelled(runner.out().spelling(k));
   }
 
-  public int ofOut(int k, int what) {
+  public int ofOut(int k, int what) throws IndexOutOfBoundsException, IllegalArgumentException {
     Row row = runner.out();
     checkBelow(k, row.size());
     checkWhat(what, 8);
@@ -346,11 +348,11 @@ public final class Wordbefore {
       case 5: return row.toldFile(k);
       case 6: return row.toldLine(k);
       case 7: return texts.length(row.spelling(k));
-      default: return texts.signAt(row.spelling(k), 0);
+      default: return texts.firstSign(row.spelling(k));
     }
   }
 
-  public String outLine(int n) {
+  public String outLine(int n) throws IndexOutOfBoundsException {
     checkBelow(n, runner.total(Runner.OUT_LINES));
     Row row = runner.out();
     int first = runner.startOfLine(n);
@@ -360,14 +362,14 @@ public final class Wordbefore {
     return out.toString();
   }
 
-  public int chain(int k, int i) {
+  public int chain(int k, int i) throws IndexOutOfBoundsException {
     Row row = runner.out();
     checkBelow(k, row.size());
     checkBelow(i, row.places(k));
     return row.place(k, i);
   }
 
-  public boolean hides(int k, int piece) {
+  public boolean hides(int k, int piece) throws IndexOutOfBoundsException, IllegalArgumentException {
     checkBelow(k, runner.out().size());
     checkPiece(piece);
     return (runner.out().hidden(k) & names.maskOf(spellingOf(piece))) != 0;
@@ -380,28 +382,28 @@ public final class Wordbefore {
     return texts.keep(out, 0, out.length());
   }
 
-  public String trace(int k) {
+  public String trace(int k) throws IndexOutOfBoundsException {
     checkBelow(k, runner.tally().steps());
     return spelled(runner.tally().replaced(k));
   }
 
-  public int ofError(int k, int what) {
+  public int ofError(int k, int what) throws IndexOutOfBoundsException, IllegalArgumentException {
     checkBelow(k, runner.tally().errors());
     checkWhat(what, 2);
     return runner.tally().ofErrorAt(k, what);
   }
 
-  public String errorText(int k) {
+  public String errorText(int k) throws IndexOutOfBoundsException {
     checkBelow(k, runner.tally().errors());
     return spelled(runner.tally().ofErrorAt(k, Tally.SAID));
   }
 
-  public String name(int i) {
+  public String name(int i) throws IndexOutOfBoundsException {
     checkBelow(i, names.size());
     return spelled(names.spelling(names.ranked(i)));
   }
 
-  public int ofName(int i, int what) {
+  public int ofName(int i, int what) throws IndexOutOfBoundsException, IllegalArgumentException {
     checkBelow(i, names.size());
     checkWhat(what, 4);
     int slot = names.ranked(i);
@@ -414,32 +416,31 @@ public final class Wordbefore {
     }
   }
 
-  public String body(int i) {
+  public String body(int i) throws IndexOutOfBoundsException {
     checkBelow(i, names.size());
     return textOut(names.bodyOf(names.ranked(i)));
   }
 
-  public String lean(int i) {
+  public String lean(int i) throws IndexOutOfBoundsException {
     checkBelow(i, runner.total(Runner.LEANS));
     return spelled(runner.leanAt(i));
   }
 
-  public String unused(int i) {
+  public String unused(int i) throws IndexOutOfBoundsException {
     checkBelow(i, runner.total(Runner.UNUSED));
     return spelled(runner.unusedAt(i));
   }
 
-  public boolean isDefined(int piece) {
+  public boolean isDefined(int piece) throws IllegalArgumentException {
     checkPiece(piece);
     return names.isKnown(spellingOf(piece));
   }
 
   // ---- what would be
 
-  public int reckon(int file, int line) {
+  public int reckon(int file, int line) throws IndexOutOfBoundsException, IllegalStateException {
     checkLine(file, line);
-    readLine(file, line);
-    aside.begin(read);
+    layAside(file, line);
     boolean good = condition.settleDefined(aside.row());
     if (good) {
       lookTillNothing(aside);
@@ -451,22 +452,23 @@ public final class Wordbefore {
     return condition.result();
   }
 
-  private void expandAside(int file, int line) {
+  private void layAside(int file, int line) {
     readLine(file, line);
     aside.begin(read);
-    lookTillNothing(aside);
   }
 
-  public String would(int file, int line) {
+  public String would(int file, int line) throws IndexOutOfBoundsException {
     checkLine(file, line);
-    expandAside(file, line);
+    layAside(file, line);
+    lookTillNothing(aside);
     return textOut(aside.row());
   }
 
-  public int ofWould(int file, int line, int what) {
+  public int ofWould(int file, int line, int what) throws IndexOutOfBoundsException, IllegalArgumentException {
     checkLine(file, line);
     checkWhat(what, 3);
-    expandAside(file, line);
+    layAside(file, line);
+    lookTillNothing(aside);
     switch (what) {
       case 0: return aside.row().size();
       case 1: return aside.tally().steps();
@@ -490,7 +492,7 @@ public final class Wordbefore {
     loadedLine = line;
   }
 
-  public int load(int file, int line) {
+  public int load(int file, int line) throws IndexOutOfBoundsException {
     checkLine(file, line);
     readLine(file, line);
     layOnDesk(file, line);
@@ -526,7 +528,7 @@ public final class Wordbefore {
     }
   }
 
-  public int ahead() {
+  public int ahead() throws IllegalStateException {
     checkNoneOpen();
     if (lost) {
       return IS_LOST;
@@ -541,7 +543,7 @@ public final class Wordbefore {
     return texts.kind(onDesk.row().spelling(touched));
   }
 
-  public int back() {
+  public int back() throws IllegalStateException {
     checkNoneOpen();
     if (lost) {
       return IS_LOST;
@@ -556,7 +558,7 @@ public final class Wordbefore {
     return texts.kind(onDesk.row().spelling(touched));
   }
 
-  public int drop() {
+  public int drop() throws IllegalStateException {
     checkNoneOpen();
     if (lost) {
       return IS_LOST;
@@ -572,7 +574,7 @@ public final class Wordbefore {
     return onDesk.row().size();
   }
 
-  public int put(int piece) {
+  public int put(int piece) throws IllegalArgumentException, IllegalStateException {
     checkPiece(piece);
     checkDeskHasRoom();
     if (lost) {
@@ -588,7 +590,7 @@ public final class Wordbefore {
     return read.size();
   }
 
-  public int swap(int piece) {
+  public int swap(int piece) throws IllegalArgumentException, IllegalStateException {
     int spelling = onlyWord(piece);
     checkNoneOpen();
     if (lost) {
@@ -602,7 +604,7 @@ public final class Wordbefore {
     return texts.kind(spelling);
   }
 
-  public int tail(int piece) {
+  public int tail(int piece) throws IllegalArgumentException, IllegalStateException {
     checkPiece(piece);
     checkDeskHasRoom();
     readPiece(piece, loadedFile, loadedLine);
@@ -613,7 +615,7 @@ public final class Wordbefore {
     return onDesk.row().size();
   }
 
-  public int cursor(int k) {
+  public int cursor(int k) throws IndexOutOfBoundsException, IllegalStateException {
     if (k < 0 || k > onDesk.row().size()) {
       throw new IndexOutOfBoundsException("not so many WORDS");
     }
@@ -638,7 +640,7 @@ public final class Wordbefore {
     texts.textOut(row, onDesk.point(), row.size(), out);
   }
 
-  public int ofDesk(int what) {
+  public int ofDesk(int what) throws IllegalArgumentException {
     checkWhat(what, 7);
     Tally tally = onDesk.tally();
     switch (what) {
@@ -666,10 +668,10 @@ public final class Wordbefore {
       int file = i / 2;
       int lines = typing.lines(file);
       if (lines > 0) {
-        readLine(file, i % 2 == 0 ? 0 : lines - 1);
-        aside.begin(read);
-        for (int k = 0; k < MANY && aside.look() != LOOK_NOTHING; k++) {
-          // each LOOK changes the row that is aside
+        layAside(file, i % 2 == 0 ? 0 : lines - 1);
+        boolean goesOn = true;
+        for (int k = 0; k < MANY && goesOn; k++) {
+          goesOn = aside.look() != LOOK_NOTHING;
         }
         copies.begin(read);
         copies.expand(0);
@@ -840,7 +842,7 @@ public final class Wordbefore {
     }
 
     private boolean isThere(int file, int line) {
-      return line >= 0 && line < lines(file);
+      return file >= 0 && file < FILES && line >= 0 && line < counts[file];
     }
 
     int length(int file, int line) {
@@ -975,7 +977,7 @@ public final class Wordbefore {
     }
 
     int spelling(int word) {
-      return cell(word, SPELLING);
+      return word >= 0 && word < size ? cells[word * WIDTH + SPELLING] : 0;
     }
 
     void setSpelling(int word, int spelling) {
@@ -1003,11 +1005,11 @@ public final class Wordbefore {
     }
 
     int toldFile(int word) {
-      return cell(word, TOLD_FILE);
+      return word >= 0 && word < size ? cells[word * WIDTH + TOLD_FILE] : 0;
     }
 
     int toldLine(int word) {
-      return cell(word, TOLD_LINE);
+      return word >= 0 && word < size ? cells[word * WIDTH + TOLD_LINE] : 0;
     }
 
     void setTold(int word, int file, int line) {
@@ -1022,9 +1024,8 @@ public final class Wordbefore {
     }
 
     void hide(int word, long mask) {
-      long all = hidden(word) | mask;
-      setCell(word, HIDES_LOW, (int) all);
-      setCell(word, HIDES_HIGH, (int) (all >> 32));
+      setCell(word, HIDES_LOW, cell(word, HIDES_LOW) | (int) mask);
+      setCell(word, HIDES_HIGH, cell(word, HIDES_HIGH) | (int) (mask >> 32));
     }
 
     int places(int word) {
@@ -1037,9 +1038,10 @@ public final class Wordbefore {
 
     /** Puts the CHAIN of a WORD of a row to the end of that of a WORD here. */
     void lengthenChain(int word, Row from, int other) {
-      int length = places(word);
-      for (int i = 0; i < from.places(other) && length < LONGEST_CHAIN; i++) {
-        setCell(word, CHAIN + length, from.place(other, i));
+      int length = cell(word, LENGTH_OF_CHAIN);
+      int more = from.cell(other, LENGTH_OF_CHAIN);
+      for (int i = 0; i < more && length < LONGEST_CHAIN; i++) {
+        setCell(word, CHAIN + length, from.cell(other, CHAIN + i));
         length++;
       }
       setCell(word, LENGTH_OF_CHAIN, length);
@@ -1047,13 +1049,15 @@ public final class Wordbefore {
 
     void add(int spelling, int marks, int file, int line, int place) {
       makeRoom(size + 1);
+      int at = size * WIDTH;
       size++;
-      Arrays.fill(cells, (size - 1) * WIDTH, size * WIDTH, 0);
-      setCell(size - 1, SPELLING, spelling);
-      setCell(size - 1, MARKS, marks);
-      setTold(size - 1, file, line);
-      setCell(size - 1, LENGTH_OF_CHAIN, 1);
-      setCell(size - 1, CHAIN, place);
+      Arrays.fill(cells, at, at + WIDTH, 0);
+      cells[at + SPELLING] = spelling;
+      cells[at + MARKS] = marks;
+      cells[at + TOLD_FILE] = file;
+      cells[at + TOLD_LINE] = line;
+      cells[at + LENGTH_OF_CHAIN] = 1;
+      cells[at + CHAIN] = place;
     }
 
     /** Puts the WORDS from first up to end of another row behind all. */
@@ -1095,8 +1099,8 @@ public final class Wordbefore {
     /** In an argument a WORD that is NEW is BLANK instead. */
     void makeNewOnesBlank(int first, int end) {
       for (int i = first; i < end; i++) {
-        if (isNew(i)) {
-          setMarks(i, BLANK);
+        if ((cell(i, MARKS) & NEW) != 0) {
+          setCell(i, MARKS, BLANK);
         }
       }
     }
@@ -1104,7 +1108,7 @@ public final class Wordbefore {
     boolean isSpelledLike(Row other) {
       boolean same = size == other.size;
       for (int i = 0; i < size && same; i++) {
-        same = spelling(i) == other.spelling(i);
+        same = cell(i, SPELLING) == other.cell(i, SPELLING);
       }
       return same;
     }
@@ -1169,11 +1173,15 @@ public final class Wordbefore {
     /** QUOTED again and again a text doubles; what is longer than any machine could hold is cut off here. */
     private static final int LONGEST = 1000000;
     private static final int ALL_SIGNS = 40000000;
+    private static final int BUCKETS = 512;
 
-    private final StringBuilder signs = new StringBuilder();
+    /** The spellings, one behind the other; each ends where the next one starts. */
+    private char[] signs = new char[1024];
     private int[] starts = new int[256];
-    private int[] table = new int[512];
     private int count = 1;
+    /** Of each bucket the spelling that was kept last, and of each spelling the one that was kept before it there. */
+    private final int[] heads = new int[BUCKETS];
+    private int[] befores = new int[256];
     /** The text that is read. */
     private final StringBuilder source = new StringBuilder();
 
@@ -1195,102 +1203,82 @@ public final class Wordbefore {
       if (first < 0 || length <= 0) {
         return NOTHING;
       }
-      int hash = 0;
+      int hash = length;
       for (int i = 0; i < length; i++) {
         hash = hash * 31 + from.charAt(first + i);
       }
-      int at = spread(hash);
-      for (int i = 0; i < table.length && table[at] != 0; i++) {
-        if (isLike(table[at], from, first, length)) {
-          return table[at];
+      int bucket = Math.floorMod(hash, BUCKETS);
+      int at = heads[bucket];
+      for (int i = 0; i < count && at > 0; i++) {
+        boolean like = starts[at + 1] - starts[at] == length;
+        for (int k = 0; k < length && like; k++) {
+          like = signs[starts[at] + k] == from.charAt(first + k);
         }
-        at = at + 1 < table.length ? at + 1 : 0;
+        if (like) {
+          return at;
+        }
+        at = befores[at];
       }
-      return addNew(from, first, length, at);
-    }
-
-    private int spread(int hash) {
-      return Math.floorMod(hash ^ hash >>> 15, Math.max(1, table.length));
-    }
-
-    private boolean isLike(int spelling, StringBuilder from, int first, int length) {
-      boolean like = length(spelling) == length;
-      for (int i = 0; i < length && like; i++) {
-        like = signAt(spelling, i) == from.charAt(first + i);
-      }
-      return like;
-    }
-
-    private int addNew(StringBuilder from, int first, int length, int at) {
-      if (signs.length() + length > ALL_SIGNS || at >= table.length) {
+      int start = starts[count];
+      if (start + length > ALL_SIGNS) {
         return ZERO;
       }
-      for (int i = 0; i < length; i++) {
-        signs.append(from.charAt(first + i));
+      if (start + length > signs.length) {
+        signs = Arrays.copyOf(signs, 2 * (start + length));
       }
       if (count + 2 > starts.length) {
         starts = Arrays.copyOf(starts, 2 * starts.length);
+        befores = Arrays.copyOf(befores, 2 * befores.length);
       }
-      int spelling = count;
+      for (int i = 0; i < length; i++) {
+        signs[start + i] = from.charAt(first + i);
+      }
+      starts[count + 1] = start + length;
+      befores[count] = heads[bucket];
+      heads[bucket] = count;
       count++;
-      starts[count] = signs.length();
-      table[at] = spelling;
-      if (2 * count > table.length) {
-        growTable();
-      }
-      return spelling;
-    }
-
-    private void growTable() {
-      table = new int[2 * table.length];
-      for (int spelling = 1; spelling < count; spelling++) {
-        int hash = 0;
-        for (int i = 0; i < length(spelling); i++) {
-          hash = hash * 31 + signAt(spelling, i);
-        }
-        int at = spread(hash);
-        for (int i = 0; i < table.length && table[at] != 0; i++) {
-          at = at + 1 < table.length ? at + 1 : 0;
-        }
-        table[at] = spelling;
-      }
+      return count - 1;
     }
 
     int length(int spelling) {
-      return spelling >= 0 && spelling < count ? starts[spelling + 1] - starts[spelling] : 0;
+      return spelling > 0 && spelling < count ? starts[spelling + 1] - starts[spelling] : 0;
     }
 
-    char signAt(int spelling, int i) {
-      return i >= 0 && i < length(spelling) ? signs.charAt(starts[spelling] + i) : ' ';
+    char firstSign(int spelling) {
+      return spelling > 0 && spelling < count ? signs[starts[spelling]] : ' ';
     }
 
     void spell(int spelling, StringBuilder into) {
-      for (int i = 0; i < length(spelling); i++) {
-        into.append(signAt(spelling, i));
+      if (spelling > 0 && spelling < count) {
+        for (int i = starts[spelling]; i < starts[spelling + 1]; i++) {
+          into.append(signs[i]);
+        }
       }
     }
 
     /** A KIND is told by the first sign. */
     int kind(int spelling) {
-      char c = signAt(spelling, 0);
+      char c = spelling > 0 && spelling < count ? signs[starts[spelling]] : ' ';
       if (c == '\'') {
         return TEXT;
       }
       if (c >= '0' && c <= '9') {
         return NUMBER;
       }
-      return isPartOfName(c) ? NAME : SIGN;
+      return c == '_' || c >= 'A' && c <= 'Z' || c >= 'a' && c <= 'z' ? NAME : SIGN;
     }
 
     /** Less than 0, 0 or more, as one spelling is ahead of another by the signs' codes. */
     int compare(int one, int other) {
-      int shorter = Math.min(length(one), length(other));
-      for (int i = 0; i < shorter; i++) {
-        if (signAt(one, i) != signAt(other, i)) {
-          return signAt(one, i) - signAt(other, i);
+      int length = length(one);
+      int otherLength = length(other);
+      for (int i = 0; i < length && i < otherLength; i++) {
+        int apart = signs[starts[one] + i] - signs[starts[other] + i];
+        if (apart != 0) {
+          return apart;
         }
       }
-      return length(one) - length(other);
+      return length - otherLength;
     }
 
     private int numberSpelled(int number) {
@@ -1311,16 +1299,17 @@ public final class Wordbefore {
     /** The VALUE of a NUMBER; NONE, if it has none. */
     long value(int spelling) {
       int length = length(spelling);
+      int at = length > 0 ? starts[spelling] : 0;
       int base = 10;
       int from = 0;
-      if (signAt(spelling, 0) == '0' && length > 1) {
-        char second = signAt(spelling, 1);
+      if (length > 1 && signs[at] == '0') {
+        char second = signs[at + 1];
         base = second == 'x' ? 16 : second == 'b' ? 2 : 8;
         from = base == 8 ? 1 : 2;
       }
       long value = from < length ? 0 : NONE;
       for (int i = from; i < length && value >= 0; i++) {
-        int digit = digit(signAt(spelling, i));
+        int digit = digit(signs[at + i]);
         value = digit < base ? value * base + digit : NONE;
         if (value > Integer.MAX_VALUE) {
           value = NONE;
@@ -1394,70 +1383,64 @@ public final class Wordbefore {
       return source.length();
     }
 
+    /** Where the WORD ends that begins there; a TEXT that has no end gets one, in the text that is read. */
     private int endOfWord(int from) {
-      char c = source.charAt(from);
       int length = source.length();
-      if (isPartOfName(c)) {
-        int end = from + 1;
-        for (; end < length && isPartOfName(source.charAt(end)); end++) {
-          // a NAME or a NUMBER goes on
-        }
+      char first = source.charAt(from);
+      int end = from;
+      char c = first;
+      while (end < length && (c == '_' || c >= '0' && c <= '9' || c >= 'A' && c <= 'Z' || c >= 'a' && c <= 'z')) {
+        end++;
+        c = end < length ? source.charAt(end) : ' ';
+      }
+      if (end > from) {
         return end;
       }
-      if (c == '\'') {
-        return endOfText(from);
-      }
       char second = from + 1 < length ? source.charAt(from + 1) : ' ';
-      if (c == '.') {
+      if (first == '.') {
         return second != '.' ? from + 1 : from + 2 < length && source.charAt(from + 2) == '.' ? from + 3 : from + 2;
       }
-      boolean doubled = second == c && "#+-<>=&|".indexOf(c) >= 0;
-      boolean compared = second == '=' && "<>!".indexOf(c) >= 0;
-      return doubled || compared ? from + 2 : from + 1;
-    }
-
-    /** A TEXT that has no end gets one, in the text that is read. */
-    private int endOfText(int from) {
-      for (int i = from + 1; i < source.length(); i++) {
-        if (source.charAt(i) == '\'') {
-          if (i + 1 >= source.length() || source.charAt(i + 1) != '\'') {
-            return i + 1;
+      if (first != '\'') {
+        boolean doubled = second == first && "#+-<>=&|".indexOf(first) >= 0;
+        boolean compared = second == '=' && "<>!".indexOf(first) >= 0;
+        return doubled || compared ? from + 2 : from + 1;
+      }
+      for (end = from + 1; end < length; end++) {
+        if (source.charAt(end) == '\'') {
+          if (end + 1 >= length || source.charAt(end + 1) != '\'') {
+            return end + 1;
           }
-          i++;
+          end++;
         }
       }
       source.append('\'');
       return source.length();
     }
 
-    private static boolean isPartOfName(char c) {
-      return c == '_' || c >= '0' && c <= '9' || c >= 'A' && c <= 'Z' || c >= 'a' && c <= 'z';
-    }
-
-    private void putTogether(int one, int other) {
-      source.setLength(0);
-      spell(one, source);
-      spell(other, source);
-    }
-
     /** Whether reading two spellings, one directly behind the other, gives just these two. */
     boolean apart(int one, int other) {
-      putTogether(one, other);
+      source.setLength(0);
+      spell(one, source);
+      int first = source.length();
+      spell(other, source);
       int length = source.length();
-      int first = length(one);
       return first > 0 && first < length && endOfWord(0) == first && endOfWord(first) == length;
     }
 
     /** The spelling that PASTING gives; NONE, if it is NO WORD. */
     int pasted(int one, int other) {
-      putTogether(one, other);
+      source.setLength(0);
+      spell(one, source);
+      spell(other, source);
       int length = source.length();
       return length > 0 && endOfWord(0) == length ? keep(source, 0, length) : NONE;
     }
 
     /** Both spellings as one text. */
     int joined(int one, int other) {
-      putTogether(one, other);
+      source.setLength(0);
+      spell(one, source);
+      spell(other, source);
       return keep(source, 0, source.length());
     }
 
@@ -1470,6 +1453,17 @@ public final class Wordbefore {
       }
     }
 
+    private void spellQuoted(int spelling, StringBuilder into) {
+      if (spelling > 0 && spelling < count) {
+        for (int i = starts[spelling]; i < starts[spelling + 1]; i++) {
+          into.append(signs[i]);
+          if (signs[i] == '\'') {
+            into.append('\'');
+          }
+        }
+      }
+    }
+
     void quote(Row row, int first, int end, StringBuilder into) {
       into.append('\'');
       for (int i = first; i < end && into.length() < ALL_SIGNS; i++) {
@@ -1477,12 +1471,7 @@ public final class Wordbefore {
         if (i > first && (row.marks(i) != 0 || !apart(row.spelling(i - 1), spelling))) {
           into.append(' ');
         }
-        for (int k = 0; k < length(spelling); k++) {
-          into.append(signAt(spelling, k));
-          if (signAt(spelling, k) == '\'') {
-            into.append('\'');
-          }
-        }
+        spellQuoted(spelling, into);
       }
       into.append('\'');
     }
@@ -1549,16 +1538,17 @@ public final class Wordbefore {
       return times;
     }
 
-    /** Whether no STEP is left; that is told once. */
-    boolean isSpent(Row row, int word) {
-      if (steps < MOST_STEPS) {
-        return false;
-      }
+    /** Whether no STEP is left. */
+    boolean isSpent() {
+      return steps >= MOST_STEPS;
+    }
+
+    /** SPENT is told once. */
+    void tellSpent(Row row, int word) {
       if (!spent) {
         spent = true;
         addErrorOf(SPENT, row, word);
       }
-      return true;
     }
 
     void addErrorOf(int kind, Row row, int word) {
@@ -1656,7 +1646,7 @@ public final class Wordbefore {
     }
 
     Row bodyOf(int slot) {
-      return bodies[isSlot(slot) ? slot : SPARE];
+      return bodies[slot >= 0 && slot <= SPARE ? slot : SPARE];
     }
 
     boolean isNeeded(int slot, int parameter) {
@@ -1666,7 +1656,10 @@ public final class Wordbefore {
 
     /** Which PARAMETER is so spelled; NONE, if none is. */
     int parameterSpelled(int slot, int spelling) {
-      for (int i = 0; i < parameters(slot) && i < MOST_PARAMETERS; i++) {
+      if (slot < 0 || slot > SPARE) {
+        return NONE;
+      }
+      for (int i = 0; i < counts[slot] && i < MOST_PARAMETERS; i++) {
         if (parameters[slot * MOST_PARAMETERS + i] == spelling) {
           return i;
         }
@@ -1737,9 +1730,15 @@ public final class Wordbefore {
 
     /** Does an ORDER "# define"; tells the KIND of error, or GOOD. */
     int define(Row order) {
-      if (!readOrder(order)) {
+      int body = NONE;
+      if (isFree(order.spelling(2))) {
+        clearSpare(order);
+        body = order.isSpelled(3, Texts.OPEN) && !order.isBlank(3) ? readParameters(order) : 3;
+      }
+      if (body == NONE || !takeBody(order, body)) {
         return BAD_ORDER;
       }
+      findNeeded();
       int slot = find(spellings[SPARE]);
       if (slot != NONE) {
         return isLikeSpare(slot) ? GOOD : DIFFERENT;
@@ -1771,24 +1770,21 @@ public final class Wordbefore {
       }
     }
 
-    private boolean readOrder(Row order) {
-      if (order.size() < 3 || !isFree(order.spelling(2))) {
-        return false;
-      }
+    private void clearSpare(Row order) {
       spellings[SPARE] = order.spelling(2);
       places[SPARE] = order.place(2, 0);
       counts[SPARE] = NONE;
       more[SPARE] = false;
-      int body = 3;
-      if (order.isSpelled(3, Texts.OPEN) && !order.isBlank(3)) {
-        body = readParameters(order);
-      }
-      if (body == NONE || order.size() - body > LONGEST_BODY) {
+    }
+
+    /** Takes the BODY that begins there; tells whether it is as it should be. */
+    private boolean takeBody(Row order, int body) {
+      bodies[SPARE].clear();
+      if (order.size() - body > LONGEST_BODY) {
         return false;
       }
-      bodies[SPARE].clear();
       bodies[SPARE].copyWords(order, body, order.size());
-      return isGoodBody() && findNeeded();
+      return isGoodBody();
     }
 
     /** Reads PARAMETERS from behind "(" on; tells where the BODY begins, or NONE, if they are not as they should be. */
@@ -1826,7 +1822,7 @@ public final class Wordbefore {
         if (body.isSpelled(i, Texts.PASTE) && body.isSpelled(i + 1, Texts.PASTE)) {
           return false;
         }
-        if (hasParameters(SPARE) && body.isSpelled(i, Texts.HASH)
+        if (counts[SPARE] != NONE && body.isSpelled(i, Texts.HASH)
             && (i + 1 >= body.size() || parameterSpelled(SPARE, body.spelling(i + 1)) == NONE)) {
           return false;
         }
@@ -1834,7 +1830,7 @@ public final class Wordbefore {
       return true;
     }
 
-    private boolean findNeeded() {
+    private void findNeeded() {
       Row body = bodies[SPARE];
       for (int i = 0; i < MOST_PARAMETERS; i++) {
         needed[SPARE * MOST_PARAMETERS + i] = false;
@@ -1845,7 +1841,6 @@ public final class Wordbefore {
           needed[SPARE * MOST_PARAMETERS + parameter] = true;
         }
       }
-      return true;
     }
 
     /** Whether a WORD of a BODY stands next to a "##". */
@@ -1952,7 +1947,11 @@ public final class Wordbefore {
         return NONE;
       }
       boolean calls = slot != Names.BUILT_IN && names.hasParameters(slot);
-      if (calls && (w + 1 >= end || !row.isSpelled(w + 1, Texts.OPEN)) || tally.isSpent(row, w)) {
+      if (calls && (w + 1 >= end || !row.isSpelled(w + 1, Texts.OPEN))) {
+        return NONE;
+      }
+      if (tally.isSpent()) {
+        tally.tellSpent(row, w);
         return NONE;
       }
       if (!calls) {
@@ -1962,7 +1961,7 @@ public final class Wordbefore {
       close = closing(row, w + 1, end);
       if (close == NONE) {
         error = UNCLOSED;
-      } else if (!fits(names, slot, row, w + 2)) {
+      } else if (!fits(names.parameters(slot), names.hasMore(slot), row, w + 2)) {
         error = MISFIT;
       } else if (open >= MOST_OPEN) {
         error = NESTED;
@@ -1992,9 +1991,7 @@ public final class Wordbefore {
     }
 
     /** Finds the arguments that stand from first on to the bracket that closes; tells whether they fit. */
-    private boolean fits(Names names, int slot, Row row, int first) {
-      int parameters = names.parameters(slot);
-      boolean more = names.hasMore(slot);
+    private boolean fits(int parameters, boolean more, Row row, int first) {
       count = 0;
       if (parameters == 0) {
         return first == close;
@@ -2022,8 +2019,11 @@ public final class Wordbefore {
     }
 
     private void addArgument(int start, int end) {
-      setArgument(count, start, end);
-      count++;
+      if (count >= 0 && count < MOST_ARGUMENTS) {
+        starts[count] = start;
+        ends[count] = end;
+        count++;
+      }
     }
 
     /** OPENS, with all between the brackets AS TYPED. */
@@ -2072,41 +2072,51 @@ public final class Wordbefore {
 
     /** What comes in for the WORD at w of a row; the arguments of its call stand EXPANDED in the row done. */
     Row make(Call call, Row done, Row row, int w, Tally tally) {
-      int slot = call.slot();
-      Row body = names.bodyOf(slot);
+      Row body = names.bodyOf(call.slot());
       made.clear();
       boolean pastes = false;
       for (int i = 0; i < body.size(); i++) {
-        int spelling = body.spelling(i);
-        if (spelling == Texts.PASTE) {
+        if (body.isSpelled(i, Texts.PASTE)) {
           pastes = true;
           continue;
         }
-        int parameter = names.parameterSpelled(slot, spelling);
-        next.clear();
-        if (parameter != NONE) {
-          takeArgument(call, done, parameter, names.isPasted(slot, i));
-          next.setMarks(0, body.marks(i));
-        } else {
-          next.copyWords(body, i, i + 1);
-          next.setTold(0, row.toldFile(w), row.toldLine(w));
-        }
-        if (spelling == Texts.HASH && names.hasParameters(slot)) {
+        if (names.hasParameters(call.slot()) && body.isSpelled(i, Texts.HASH)) {
+          takeWord(body, i, row, w);
           i++;
-          int quoted = names.parameterSpelled(slot, body.spelling(i));
+          int quoted = names.parameterSpelled(call.slot(), body.spelling(i));
           text.setLength(0);
           texts.quote(call.typed(), call.typedStart(quoted), call.typedEnd(quoted), text);
           next.setSpelling(0, texts.keep(text, 0, text.length()));
+        } else {
+          int parameter = names.parameterSpelled(call.slot(), body.spelling(i));
+          if (parameter == NONE) {
+            takeWord(body, i, row, w);
+          } else {
+            takeArgument(call, done, parameter, names.isPasted(call.slot(), i));
+            next.setMarks(0, body.marks(i));
+          }
         }
-        append(pastes, row, w, tally);
+        int taken = 0;
+        if (pastes) {
+          int pasted = texts.pasted(made.spelling(made.size() - 1), next.spelling(0));
+          taken = takePasted(pasted, row, w, tally);
+        }
+        append(taken);
         pastes = false;
       }
       complete(row, w, tally);
       return made;
     }
 
+    private void takeWord(Row body, int i, Row row, int w) {
+      next.clear();
+      next.copyWords(body, i, i + 1);
+      next.setTold(0, row.toldFile(w), row.toldLine(w));
+    }
+
     /** Next to a "##" an argument without WORDS is an EMPTY mark: a WORD spelled as NOTHING. */
     private void takeArgument(Call call, Row done, int parameter, boolean pasted) {
+      next.clear();
       if (!pasted) {
         next.copyWords(done, call.start(parameter), call.end(parameter));
         return;
@@ -2117,25 +2127,9 @@ public final class Wordbefore {
       }
     }
 
-    private void append(boolean pastes, Row row, int w, Tally tally) {
-      int from = 0;
+    /** What was made last becomes what PASTING gave; tells how many of the next ones it took. */
+    private int takePasted(int pasted, Row row, int w, Tally tally) {
       int last = made.size() - 1;
-      if (pastes && last >= 0 && next.size() > 0) {
-        from = pasteLast(last, row, w, tally);
-      }
-      for (int i = from; i < next.size(); i++) {
-        last = made.size() - 1;
-        // of what will be cut off only the last WORD can still matter, to a "##"
-        if (last >= NOT_KEPT || made.isSpelled(last, Texts.NOTHING)) {
-          made.setWord(last, next, i);
-        } else {
-          made.copyWords(next, i, i + 1);
-        }
-      }
-    }
-
-    /** PASTES what was made last and the first of what is made next; tells how many of the next ones it took. */
-    private int pasteLast(int last, Row row, int w, Tally tally) {
       int one = made.spelling(last);
       int other = next.spelling(0);
       if (one == Texts.NOTHING) {
@@ -2145,7 +2139,6 @@ public final class Wordbefore {
       if (other == Texts.NOTHING) {
         return 1;
       }
-      int pasted = texts.pasted(one, other);
       if (pasted == NONE) {
         next.setMarks(0, 0);
         tally.addError(NO_WORD, row.toldFile(w), row.toldLine(w), texts.joined(one, other));
@@ -2154,6 +2147,18 @@ public final class Wordbefore {
       made.setSpelling(last, pasted);
       made.hide(last, next.hidden(0));
       return 1;
+    }
+
+    private void append(int first) {
+      for (int i = first; i < next.size(); i++) {
+        int last = made.size() - 1;
+        // of what will be cut off only the last WORD can still matter, to a "##"
+        if (last >= NOT_KEPT || made.isSpelled(last, Texts.NOTHING)) {
+          made.setWord(last, next, i);
+        } else {
+          made.copyWords(next, i, i + 1);
+        }
+      }
     }
 
     private void complete(Row row, int w, Tally tally) {
@@ -2334,11 +2339,12 @@ public final class Wordbefore {
     }
 
     /** EXPANDS the row around which so many calls are OPEN. */
-    void expand(int open) {
+    private void expand(int open) {
       if (open < 0 || open > MOST_OPEN) {
         return;
       }
       Row row = rows[open];
+      Row done = arguments[open];
       Call call = calls[open];
       int at = 0;
       for (int i = 0; i < MANY && at < row.size(); i++) {
@@ -2353,41 +2359,43 @@ public final class Wordbefore {
           at++;
           continue;
         }
-        int end = at + 1;
-        if (names.hasParameters(slot)) {
-          end = call.close() + 1;
-          call.begin(row);
-          expandArguments(call, open);
-        } else {
-          call.setPlain(slot);
+        int end = openCall(call, slot, row, at);
+        done.clear();
+        for (int k = 0; k < call.count() && open < MOST_OPEN; k++) {
+          int start = done.size();
+          if (names.isNeeded(slot, k)) {
+            Row inner = rows[open + 1];
+            inner.clear();
+            inner.copyWords(call.typed(), call.typedStart(k), call.typedEnd(k));
+            expand(open + 1);
+            done.copyWords(inner, 0, inner.size());
+          }
+          call.setArgument(k, start, done.size());
         }
-        int marks = row.marks(at);
-        Row made = incoming.make(call, arguments[open], row, at, tally);
-        row.putIn(at, end, made);
-        if (made.size() == 0 && at < row.size()) {
-          row.setMarks(at, row.marks(at) | marks);
-        }
+        putIn(row, at, end, incoming.make(call, done, row, at, tally));
       }
     }
 
-    private void expandArguments(Call call, int open) {
-      Row done = arguments[open];
-      done.clear();
-      for (int i = 0; i < call.count() && open < MOST_OPEN; i++) {
-        int start = done.size();
-        if (names.isNeeded(call.slot(), i)) {
-          Row inner = rows[open + 1];
-          inner.clear();
-          inner.copyWords(call.typed(), call.typedStart(i), call.typedEnd(i));
-          expand(open + 1);
-          done.copyWords(inner, 0, inner.size());
-        }
-        call.setArgument(i, start, done.size());
+    /** Begins to REPLACE a WORD; tells the end of what is taken out for it. */
+    private int openCall(Call call, int slot, Row row, int at) {
+      if (!names.hasParameters(slot)) {
+        call.setPlain(slot);
+        return at + 1;
+      }
+      call.begin(row);
+      return call.close() + 1;
+    }
+
+    private static void putIn(Row row, int at, int end, Row made) {
+      int marks = row.marks(at);
+      row.putIn(at, end, made);
+      if (made.size() == 0) {
+        row.setMarks(at, row.marks(at) | marks);
       }
     }
   }
 
-  /** Reads a row as a condition and reckons it, by two stacks and without recursion, so that brackets may nest at will. */
+  /** Reads a row as a condition and reckons it, by two stacks and without recursion: brackets may nest at will. */
   private static final class Condition {
     static final int GOOD = 0;
     private static final long NO_VALUE = Long.MIN_VALUE;
@@ -2630,18 +2638,12 @@ public final class Wordbefore {
         case Texts.TIMES: return a * b;
         case Texts.DIVIDED: return b == 0 ? NO_VALUE : a / b;
         case Texts.REST: return b == 0 ? NO_VALUE : a % b;
-        default: return compared(operator, a, b) ? 1 : 0;
-      }
-    }
-
-    private static boolean compared(int operator, int a, int b) {
-      switch (operator) {
-        case Texts.SAME: return a == b;
-        case Texts.OTHER: return a != b;
-        case Texts.LESS: return a < b;
-        case Texts.AT_MOST: return a <= b;
-        case Texts.GREATER: return a > b;
-        default: return a >= b;
+        case Texts.SAME: return a == b ? 1 : 0;
+        case Texts.OTHER: return a != b ? 1 : 0;
+        case Texts.LESS: return a < b ? 1 : 0;
+        case Texts.AT_MOST: return a <= b ? 1 : 0;
+        case Texts.GREATER: return a > b ? 1 : 0;
+        default: return a >= b ? 1 : 0;
       }
     }
   }
@@ -2900,11 +2902,20 @@ public final class Wordbefore {
           leave();
         } else {
           setFrame(NEXT_LINE, typing.lastJoined() + 1);
+          int what = isOrder ? read.spelling(1) : Texts.NOTHING;
           if (isOrder) {
             spellOrder();
-            obey();
+          }
+          if (what >= Texts.IF && what <= Texts.IFNDEF) {
+            openIf(what);
+          } else if (what >= Texts.ELIF && what <= Texts.ENDIF) {
+            changeIf(what);
+          } else if (!isTaken()) {
+            totals[SKIPPED] += read.size() > 0 ? 1 : 0;
+          } else if (isOrder) {
+            obey(what);
           } else {
-            takeLine();
+            expander.row().copyWords(read, 0, read.size());
           }
         }
       }
@@ -2921,14 +2932,6 @@ public final class Wordbefore {
       text.setLength(0);
       texts.textOut(read, 0, read.size(), text);
       orderText = texts.keep(text, 0, text.length());
-    }
-
-    private void takeLine() {
-      if (isTaken()) {
-        expander.row().copyWords(read, 0, read.size());
-      } else if (read.size() > 0) {
-        totals[SKIPPED]++;
-      }
     }
 
     private void expandAs(int what) {
@@ -2964,7 +2967,7 @@ public final class Wordbefore {
     }
 
     private void fail(int kind) {
-      fail(kind, orderText);
+      tally().addError(kind, read.toldFile(0), read.toldLine(0), orderText);
     }
 
     private void fail(int kind, int said) {
@@ -2989,31 +2992,8 @@ public final class Wordbefore {
       }
     }
 
-    /** Does the ORDER that was read. */
-    private void obey() {
-      int what = read.spelling(1);
-      switch (what) {
-        case Texts.IF:
-        case Texts.IFDEF:
-        case Texts.IFNDEF:
-          openIf(what);
-          return;
-        case Texts.ELIF:
-        case Texts.ELSE:
-        case Texts.ENDIF:
-          changeIf(what);
-          return;
-        default:
-          break;
-      }
-      if (isTaken()) {
-        obeyOther(what);
-      } else {
-        totals[SKIPPED]++;
-      }
-    }
-
-    private void obeyOther(int what) {
+    /** Does an ORDER that has nothing to do with IFS. */
+    private void obey(int what) {
       switch (what) {
         case Texts.NOTHING:
           break;
