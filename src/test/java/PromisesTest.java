@@ -592,6 +592,10 @@ public final class PromisesTest {
         "#define x y", "A");
     w.run(0);
     due(8, () -> w.ofOut(0, 3));
+    file(1, "#define G(x, y) x ## y", "#define F(x) G(1, x)", "#define A B", "F(A)", "G(1,)", "G(,1)");
+    w.run(1);
+    due("1B 3 1 1", () -> w.outWord(0) + " " + w.ofOut(0, 4) + " " + w.ofOut(1, 4) + " " + w.ofOut(2, 4));
+    w.run(0);
     due("710 10", () -> w.chain(0, 0) + " " + w.chain(0, 7));
 
     begin(24);
@@ -629,7 +633,17 @@ public final class PromisesTest {
     due(ARGUMENT, () -> w.ofError(0, 3));
     due(ARGUMENT, () -> w.ofError(0, -1));
 
-    promise = 27;
+    due("1@0.4 #include LINE", () -> {
+      out("", "", "", "", "#include LINE");
+      return errors();
+    });
+    due("99.2", () -> out("#line 0b1011111", "", "", "", "", "#line 1 LINE", "", "FILE.LINE") + errors());
+    due("1@0.100 #line 1 LINE", () -> out("#line 0b1011111", "", "", "", "", "", "#line 1 LINE") + errors());
+    due("9999|1@0.10000 #line 0x2710", () -> out("#line 0x270F", "LINE", "#line 0x2710") + "|" + errors());
+
+    begin(27);
+    file(0, "#line 12 7", "#x", "#error A B", "#define F(x) x", "F(", "#if 0");
+    w.run(0);
     due("#x|A B|F|#if 0", () -> w.errorText(0) + "|" + w.errorText(1) + "|" + w.errorText(2) + "|" + w.errorText(3));
     due(INDEX, () -> w.errorText(4));
     due(INDEX, () -> w.errorText(-1));
@@ -708,7 +722,7 @@ public final class PromisesTest {
         "1 << 0x1F", "-2147483648", "-1 >> 1", "-1", "1 << 12 * 3 + 1", "32", "3 - 2 - 1", "0", "1 ? 2 : 3 ? 7 : 12", "2",
         "0 ? 2 : 0 ? 7 : 12", "12", "1 ? 0 ? 2 : 3 : 7", "3", "1 || 1/0", "1", "0 && 1/0", "0", "1 ? 2 : 1/0", "2",
         "0 ? 1%0 : 2", "2", "!0 + !!7", "2", "~0", "-1", "- - 1", "1", "1 | 2 ^ 3 & 7", "1", "1 == 1 != 0", "1",
-        "1 < 2 == 1", "1", "2 <= 2", "1", "2 >= 3", "0", "3 > 2 > 1", "0", "A", "0", "defined LINE", "1", "defined(A)", "0",
+        "1 < 2 == 1", "1", "2 <= 2", "1", "2 >= 3", "0", "3 >= 3", "1", "3 > 2 > 1", "0", "A", "0", "defined LINE", "1", "defined(A)", "0",
         "defined defined", "0", "LINE", "0", "0x7FFFFFFF + 1", "-2147483648", "1 && 2", "1", "0 || 0", "0", "2 | 1 && 0", "0",
         "1 ? 2, 3 : 1", STATE, "(1", STATE, "1)", STATE, "1 2", STATE, "", STATE, "1 ? 2", STATE, "1 : 2", STATE,
         "(1 ? 2) : 3", STATE, "1 +", STATE, "* 1", STATE, "'x'", STATE, "0x", STATE, "9999999999", STATE, "1/0", STATE,
