@@ -1171,12 +1171,12 @@ public final class Wordbefore {
         "line error ? : || && | ^ & == != < <= > >= << >> + - * / % ! ~ ";
 
     /** QUOTED again and again a text doubles; what is longer than any machine could hold is cut off here. */
-    private static final int LONGEST = 1000000;
-    private static final int ALL_SIGNS = 40000000;
+    private static final int LONGEST = 300000;
+    private static final int ALL_SIGNS = 1500000;
     private static final int BUCKETS = 512;
 
     /** The spellings, one behind the other; each ends where the next one starts. */
-    private char[] signs = new char[1024];
+    private final StringBuilder signs = new StringBuilder();
     private int[] starts = new int[256];
     private int count = 1;
     /** Of each bucket the spelling that was kept last, and of each spelling the one that was kept before it there. */
@@ -1212,7 +1212,7 @@ public final class Wordbefore {
       for (int i = 0; i < count && at > 0; i++) {
         boolean like = starts[at + 1] - starts[at] == length;
         for (int k = 0; k < length && like; k++) {
-          like = signs[starts[at] + k] == from.charAt(first + k);
+          like = signs.charAt(starts[at] + k) == from.charAt(first + k);
         }
         if (like) {
           return at;
@@ -1223,15 +1223,12 @@ public final class Wordbefore {
       if (start + length > ALL_SIGNS) {
         return ZERO;
       }
-      if (start + length > signs.length) {
-        signs = Arrays.copyOf(signs, 2 * (start + length));
-      }
       if (count + 2 > starts.length) {
         starts = Arrays.copyOf(starts, 2 * starts.length);
         befores = Arrays.copyOf(befores, 2 * befores.length);
       }
       for (int i = 0; i < length; i++) {
-        signs[start + i] = from.charAt(first + i);
+        signs.append(from.charAt(first + i));
       }
       starts[count + 1] = start + length;
       befores[count] = heads[bucket];
@@ -1245,20 +1242,20 @@ public final class Wordbefore {
     }
 
     char firstSign(int spelling) {
-      return spelling > 0 && spelling < count ? signs[starts[spelling]] : ' ';
+      return spelling > 0 && spelling < count ? signs.charAt(starts[spelling]) : ' ';
     }
 
     void spell(int spelling, StringBuilder into) {
       if (spelling > 0 && spelling < count) {
         for (int i = starts[spelling]; i < starts[spelling + 1]; i++) {
-          into.append(signs[i]);
+          into.append(signs.charAt(i));
         }
       }
     }
 
     /** A KIND is told by the first sign. */
     int kind(int spelling) {
-      char c = spelling > 0 && spelling < count ? signs[starts[spelling]] : ' ';
+      char c = spelling > 0 && spelling < count ? signs.charAt(starts[spelling]) : ' ';
       if (c == '\'') {
         return TEXT;
       }
@@ -1273,7 +1270,7 @@ public final class Wordbefore {
       int length = length(one);
       int otherLength = length(other);
       for (int i = 0; i < length && i < otherLength; i++) {
-        int apart = signs[starts[one] + i] - signs[starts[other] + i];
+        int apart = signs.charAt(starts[one] + i) - signs.charAt(starts[other] + i);
         if (apart != 0) {
           return apart;
         }
@@ -1302,14 +1299,14 @@ public final class Wordbefore {
       int at = length > 0 ? starts[spelling] : 0;
       int base = 10;
       int from = 0;
-      if (length > 1 && signs[at] == '0') {
-        char second = signs[at + 1];
+      if (length > 1 && signs.charAt(at) == '0') {
+        char second = signs.charAt(at + 1);
         base = second == 'x' ? 16 : second == 'b' ? 2 : 8;
         from = base == 8 ? 1 : 2;
       }
       long value = from < length ? 0 : NONE;
       for (int i = from; i < length && value >= 0; i++) {
-        int digit = digit(signs[at + i]);
+        int digit = digit(signs.charAt(at + i));
         value = digit < base ? value * base + digit : NONE;
         if (value > Integer.MAX_VALUE) {
           value = NONE;
@@ -1456,8 +1453,8 @@ public final class Wordbefore {
     private void spellQuoted(int spelling, StringBuilder into) {
       if (spelling > 0 && spelling < count) {
         for (int i = starts[spelling]; i < starts[spelling + 1]; i++) {
-          into.append(signs[i]);
-          if (signs[i] == '\'') {
+          into.append(signs.charAt(i));
+          if (signs.charAt(i) == '\'') {
             into.append('\'');
           }
         }
