@@ -878,8 +878,10 @@ public final class Wordbefore {
       int had = length(file, line);
       int at = file * LINES + line;
       int behind = counts[file] - line - 1;
-      System.arraycopy(signs, (at + 1) * COLUMNS, signs, at * COLUMNS, behind * COLUMNS);
-      System.arraycopy(lengths, at + 1, lengths, at, behind);
+      if (behind > 0) {
+        System.arraycopy(signs, (at + 1) * COLUMNS, signs, at * COLUMNS, behind * COLUMNS);
+        System.arraycopy(lengths, at + 1, lengths, at, behind);
+      }
       counts[file]--;
       return had;
     }
@@ -905,7 +907,7 @@ public final class Wordbefore {
       int joined = 0;
       lastJoined = line;
       boolean goesOn = true;
-      for (int at = line; goesOn && isThere(file, at); at++) {
+      for (int at = line; at < LINES && goesOn && isThere(file, at); at++) {
         lastJoined = at;
         int start = (file * LINES + at) * COLUMNS;
         int length = length(file, at);
@@ -1051,11 +1053,12 @@ public final class Wordbefore {
       makeRoom(size + 1);
       int at = size * WIDTH;
       size++;
-      Arrays.fill(cells, at, at + WIDTH, 0);
       cells[at + SPELLING] = spelling;
       cells[at + MARKS] = marks;
       cells[at + TOLD_FILE] = file;
       cells[at + TOLD_LINE] = line;
+      cells[at + HIDES_LOW] = 0;
+      cells[at + HIDES_HIGH] = 0;
       cells[at + LENGTH_OF_CHAIN] = 1;
       cells[at + CHAIN] = place;
     }
@@ -1174,6 +1177,7 @@ public final class Wordbefore {
     private static final int LONGEST = 300000;
     private static final int ALL_SIGNS = 1500000;
     private static final int BUCKETS = 512;
+    private static final int GREATEST = 2147483647;
 
     /** The spellings, one behind the other; each ends where the next one starts. */
     private final StringBuilder signs = new StringBuilder();
@@ -1308,7 +1312,7 @@ public final class Wordbefore {
       for (int i = from; i < length && value >= 0; i++) {
         int digit = digit(signs.charAt(at + i));
         value = digit < base ? value * base + digit : NONE;
-        if (value > Integer.MAX_VALUE) {
+        if (value > GREATEST) {
           value = NONE;
         }
       }
@@ -2395,7 +2399,8 @@ public final class Wordbefore {
   /** Reads a row as a condition and reckons it, by two stacks and without recursion: brackets may nest at will. */
   private static final class Condition {
     static final int GOOD = 0;
-    private static final long NO_VALUE = Long.MIN_VALUE;
+    /** None of the values that 32 bits hold. */
+    private static final long NO_VALUE = 1099511627776L;
     private static final int RANK_OF_BRACKET = 0;
     private static final int RANK_OF_CHOICE = 1;
     private static final int RANK_AHEAD = 12;
