@@ -344,7 +344,7 @@ public final class Wordbefore {
       case 1: return row.isBlank(k) ? 1 : 0;
       case 2: return row.isNew(k) ? 1 : 0;
       case 3: return row.places(k);
-      case 4: return Long.bitCount(row.hidden(k));
+      case 4: return Integer.bitCount(row.hidden(k));
       case 5: return row.toldFile(k);
       case 6: return row.toldLine(k);
       case 7: return texts.length(row.spelling(k));
@@ -940,10 +940,9 @@ public final class Wordbefore {
     private static final int MARKS = 1;
     private static final int TOLD_FILE = 2;
     private static final int TOLD_LINE = 3;
-    private static final int HIDES_LOW = 4;
-    private static final int HIDES_HIGH = 5;
-    private static final int LENGTH_OF_CHAIN = 6;
-    private static final int CHAIN = 7;
+    private static final int HIDES = 4;
+    private static final int LENGTH_OF_CHAIN = 5;
+    private static final int CHAIN = 6;
     private static final int LONGEST_CHAIN = 8;
     private static final int WIDTH = CHAIN + LONGEST_CHAIN;
 
@@ -1020,14 +1019,12 @@ public final class Wordbefore {
     }
 
     /** The HIDDEN SET, a bit for each NAME, as Names.maskOf tells it. */
-    long hidden(int word) {
-      long high = cell(word, HIDES_HIGH);
-      return high << 32 | cell(word, HIDES_LOW) & 0xFFFFFFFFL;
+    int hidden(int word) {
+      return cell(word, HIDES);
     }
 
-    void hide(int word, long mask) {
-      setCell(word, HIDES_LOW, cell(word, HIDES_LOW) | (int) mask);
-      setCell(word, HIDES_HIGH, cell(word, HIDES_HIGH) | (int) (mask >> 32));
+    void hide(int word, int mask) {
+      setCell(word, HIDES, cell(word, HIDES) | mask);
     }
 
     int places(int word) {
@@ -1057,8 +1054,7 @@ public final class Wordbefore {
       cells[at + MARKS] = marks;
       cells[at + TOLD_FILE] = file;
       cells[at + TOLD_LINE] = line;
-      cells[at + HIDES_LOW] = 0;
-      cells[at + HIDES_HIGH] = 0;
+      cells[at + HIDES] = 0;
       cells[at + LENGTH_OF_CHAIN] = 1;
       cells[at + CHAIN] = place;
     }
@@ -1600,8 +1596,11 @@ public final class Wordbefore {
     private final Row[] bodies = new Row[SLOTS + 1];
     private final int[] places = new int[SLOTS + 1];
     private int size;
-    /** The NAMES that were DEFINED in the RUN; FILES have 40 LINES at most, so there are no more of them. */
-    private final int[] maskNames = new int[FILES * LINES];
+    /**
+     * The NAMES that were DEFINED in the RUN. All but 8 of them need a LINE that defines and one that undefines them,
+     * and FILES have 40 LINES at most, so there are 24 of them at most.
+     */
+    private final int[] maskNames = new int[32];
     private int maskCount;
 
     Names(Texts texts) {
@@ -1707,10 +1706,10 @@ public final class Wordbefore {
     }
 
     /** The bit by which a NAME stands in HIDDEN SETS; 0, if it was not DEFINED in the RUN. */
-    long maskOf(int spelling) {
+    int maskOf(int spelling) {
       for (int i = 0; i < maskCount; i++) {
         if (maskNames[i] == spelling) {
-          return 1L << i;
+          return 1 << i;
         }
       }
       return 0;
@@ -2171,7 +2170,7 @@ public final class Wordbefore {
         made.takeOut(MOST, made.size());
         tally.addErrorOf(CUT, row, w);
       }
-      long hidden = row.hidden(w) | names.maskOf(row.spelling(w));
+      int hidden = row.hidden(w) | names.maskOf(row.spelling(w));
       for (int i = 0; i < made.size(); i++) {
         made.hide(i, hidden);
         made.lengthenChain(i, row, w);
@@ -2786,7 +2785,7 @@ public final class Wordbefore {
     }
 
     boolean isOutSound() {
-      long replaced = 0;
+      int replaced = 0;
       for (int i = 0; i < tally().steps(); i++) {
         replaced |= names.maskOf(tally().replaced(i));
       }
@@ -2821,7 +2820,7 @@ public final class Wordbefore {
       totals[0] = out.size();
       for (int i = 0; i < out.size(); i++) {
         totals[OUT_LINES] += out.isNew(i) ? 1 : 0;
-        totals[MOST_HIDDEN] = Math.max(totals[MOST_HIDDEN], Long.bitCount(out.hidden(i)));
+        totals[MOST_HIDDEN] = Math.max(totals[MOST_HIDDEN], Integer.bitCount(out.hidden(i)));
       }
       totals[2] = tally().errors();
       totals[3] = tally().steps();
