@@ -478,6 +478,10 @@ public final class PromisesTest {
     // include, once, line
     file(1, "#once", "FILE");
     due("1|0", () -> out("#include 1", "#include 1", "FILE"));
+    due("1 2", () -> {
+      out("#if 0", "#if 1", "#elif A(", "1", "#else", "2", "#endif", "#endif", "#elif 1");
+      return w.ofRun(8) + " " + (w.ofRun(9));
+    });
     due("1@0.0 #include 7|1@0.1 #include|8@0.2 0x|1@0.3 #include A", () -> out("#include 7", "#include ",
         "#include 0x", "#include A") + errors());
     file(1, "#include 1");
@@ -697,10 +701,17 @@ public final class PromisesTest {
     file(0, "#define A LINE", "#if defined B || defined(D) || defined 1", "#elif defined C", "#endif", "#ifndef z", "A",
         "#endif", "#if 1", "#elif defined y", "#endif");
     w.run(0);
+    due(6, () -> w.ofRun(10));
     due("A B C D LINE z", () -> w.lean(0) + " " + w.lean(1) + " " + w.lean(2) + " " + w.lean(3) + " " + w.lean(4) + " "
         + w.lean(5));
     due(INDEX, () -> w.lean(6));
     due(INDEX, () -> w.lean(-1));
+    file(0, "#if \\", "defined A defined B defined C defined D \\", "defined F defined G defined H defined x \\",
+        "defined y defined z defined A1 defined A2\\", " defined A3 defined A7 defined B1 defined B2\\",
+        " defined C1 defined C2 defined C3 defined C7\\", " defined D1 defined A");
+    w.run(0);
+    due("21 A A1 C7 D z", () -> w.ofRun(10) + " " + w.lean(0) + " " + w.lean(1) + " " + w.lean(12) + " " + w.lean(13) + " "
+        + w.lean(20));
   }
 
   private static String ofName(int i) {
@@ -918,6 +929,17 @@ public final class PromisesTest {
     openCall();
     due(STATE, () -> w.put(2));
     due(ARGUMENT, () -> w.put(96));
+
+    file(3, "", "B");
+    w.load(3, 1);
+    w.put(12);
+    w.put(13);
+    w.ahead();
+    w.swap(12);
+    w.tail(13);
+    w.cursor(0);
+    w.finish();
+    due("1 3 1 3@", () -> w.desk());
 
     begin(44);
     due(-7, () -> w.swap(2));
