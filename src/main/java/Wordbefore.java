@@ -65,6 +65,9 @@ public final class Wordbefore {
   private int loadedFile;
   private int loadedLine;
   private int refused;
+  /** How many spellings the last RUN and the DESK hold; those behind were made for one call. */
+  private int held;
+  private int heldByRun;
 
   public Wordbefore() {
   }
@@ -168,16 +171,17 @@ public final class Wordbefore {
   }
 
   public boolean isApart(int first, int second) throws IllegalArgumentException {
+    forget();
     int one = onlyWord(first);
     int other = onlyWord(second);
     return texts.apart(one, other);
   }
 
   public int paste(int first, int second) throws IllegalArgumentException {
+    forget();
     int one = onlyWord(first);
     int other = onlyWord(second);
-    int pasted = texts.pasted(one, other);
-    return pasted == NONE ? NONE : texts.kind(pasted);
+    return texts.isOneWord(one, other) ? texts.kind(one) : NONE;
   }
 
   /** The spelling of the one WORD of a PIECE. */
@@ -197,8 +201,19 @@ public final class Wordbefore {
     texts.readInto(read, null, file, line, 0);
   }
 
+  /** Lets go of the spellings that were made for one call. */
+  private void forget() {
+    texts.keepFirst(held);
+  }
+
+  /** The DESK holds its spellings from now on. */
+  private void hold() {
+    held = texts.count();
+  }
+
   /** The row of the JOINED LINE from a LINE, in read. */
   private void readLine(int file, int line) {
+    forget();
     read.clear();
     typing.join(file, line, texts.fresh());
     texts.readInto(read, typing.places(), file, line, Row.NEW);
@@ -252,7 +267,7 @@ public final class Wordbefore {
   public String plain(int file, int line) throws IndexOutOfBoundsException {
     checkLine(file, line);
     readLine(file, line);
-    return textOut(read);
+    return textOut(read, 0, read.size());
   }
 
   public String quoted(int file, int line) throws IndexOutOfBoundsException {
@@ -281,14 +296,14 @@ public final class Wordbefore {
   }
 
   private String spelled(int spelling) {
-    out.setLength(0);
-    texts.spell(spelling, out);
+    Texts.makeRoom(out, texts.length(spelling));
+    texts.spell(spelling, 0, out);
     return out.toString();
   }
 
-  private String textOut(Row row) {
-    out.setLength(0);
-    texts.textOut(row, 0, row.size(), out);
+  private String textOut(Row row, int first, int end) {
+    Texts.makeRoom(out, texts.signsOut(row, first, end));
+    texts.textOut(row, first, end, out);
     return out.toString();
   }
 
@@ -297,12 +312,15 @@ public final class Wordbefore {
   public int run(int file) throws IndexOutOfBoundsException {
     checkFile(file);
     emptyDesk();
+    texts.keepFirst(0);
     runner.begin(file);
     for (int i = 0; i < MANY && runner.goesOn(); i++) {
       lookTillNothing(runner.expander());
       runner.takeUp();
     }
     runner.end();
+    hold();
+    heldByRun = held;
     return runner.out().size();
   }
 
@@ -354,12 +372,7 @@ public final class Wordbefore {
 
   public String outLine(int n) throws IndexOutOfBoundsException {
     checkBelow(n, runner.total(Runner.OUT_LINES));
-    Row row = runner.out();
-    int first = runner.startOfLine(n);
-    int end = runner.startOfLine(n + 1);
-    out.setLength(0);
-    texts.textOut(row, first, end, out);
-    return out.toString();
+    return textOut(runner.out(), runner.startOfLine(n), runner.startOfLine(n + 1));
   }
 
   public int chain(int k, int i) throws IndexOutOfBoundsException {
@@ -377,6 +390,7 @@ public final class Wordbefore {
 
   /** The number of the spelling that is just like a PIECE. */
   private int spellingOf(int piece) {
+    forget();
     out.setLength(0);
     typing.spellPiece(piece, out);
     return texts.keep(out, 0, out.length());
@@ -418,7 +432,8 @@ public final class Wordbefore {
 
   public String body(int i) throws IndexOutOfBoundsException {
     checkBelow(i, names.size());
-    return textOut(names.bodyOf(names.ranked(i)));
+    Row body = names.bodyOf(names.ranked(i));
+    return textOut(body, 0, body.size());
   }
 
   public String lean(int i) throws IndexOutOfBoundsException {
@@ -461,7 +476,7 @@ public final class Wordbefore {
     checkLine(file, line);
     layAside(file, line);
     lookTillNothing(aside);
-    return textOut(aside.row());
+    return textOut(aside.row(), 0, aside.row().size());
   }
 
   public int ofWould(int file, int line, int what) throws IndexOutOfBoundsException, IllegalArgumentException {
@@ -494,8 +509,10 @@ public final class Wordbefore {
 
   public int load(int file, int line) throws IndexOutOfBoundsException {
     checkLine(file, line);
+    held = heldByRun;
     readLine(file, line);
     layOnDesk(file, line);
+    hold();
     return onDesk.row().size();
   }
 
@@ -504,7 +521,10 @@ public final class Wordbefore {
       return IS_LOST;
     }
     touched = NONE;
-    return onDesk.look();
+    forget();
+    int code = onDesk.look();
+    hold();
+    return code;
   }
 
   public int finish() {
@@ -512,7 +532,10 @@ public final class Wordbefore {
       return IS_LOST;
     }
     touched = NONE;
-    return lookTillNothing(onDesk);
+    forget();
+    int looks = lookTillNothing(onDesk);
+    hold();
+    return looks;
   }
 
   private void checkNoneOpen() {
@@ -580,7 +603,9 @@ public final class Wordbefore {
     if (lost) {
       return IS_LOST;
     }
+    forget();
     readPiece(piece, loadedFile, loadedLine);
+    hold();
     if (read.size() > 0) {
       int point = onDesk.point();
       onDesk.row().putIn(point, point, read);
@@ -591,6 +616,7 @@ public final class Wordbefore {
   }
 
   public int swap(int piece) throws IllegalArgumentException, IllegalStateException {
+    forget();
     int spelling = onlyWord(piece);
     checkNoneOpen();
     if (lost) {
@@ -601,13 +627,16 @@ public final class Wordbefore {
     }
     readPiece(piece, loadedFile, loadedLine);
     onDesk.row().putIn(touched, touched + 1, read);
+    hold();
     return texts.kind(spelling);
   }
 
   public int tail(int piece) throws IllegalArgumentException, IllegalStateException {
     checkPiece(piece);
     checkDeskHasRoom();
+    forget();
     readPiece(piece, loadedFile, loadedLine);
+    hold();
     if (read.size() > 0) {
       onDesk.row().copyWords(read, 0, read.size());
       lost = true;
@@ -628,16 +657,17 @@ public final class Wordbefore {
   }
 
   public String desk() {
-    spellDesk();
-    return out.toString();
-  }
-
-  private void spellDesk() {
     Row row = onDesk.row();
-    out.setLength(0);
+    Texts.makeRoom(out, signsOfDesk());
     texts.textOut(row, 0, onDesk.point(), out);
     out.append('@');
     texts.textOut(row, onDesk.point(), row.size(), out);
+    return out.toString();
+  }
+
+  private long signsOfDesk() {
+    Row row = onDesk.row();
+    return texts.signsOut(row, 0, onDesk.point()) + 1 + texts.signsOut(row, onDesk.point(), row.size());
   }
 
   public int ofDesk(int what) throws IllegalArgumentException {
@@ -707,8 +737,7 @@ public final class Wordbefore {
     for (int what = 0; what <= 7; what++) {
       d = d * 31 + ofDesk(what);
     }
-    spellDesk();
-    d = d * 31 + out.length();
+    d = d * 31 + signsOfDesk();
     d = d * 31 + refused;
     return d * 31 + (isSound() ? 1 : 0);
   }
@@ -722,16 +751,10 @@ public final class Wordbefore {
       for (int line = 0; line < typing.lines(file); line++) {
         readLine(file, line);
         d = d * 31 + read.size();
-        d = d * 31 + lengthOut(read);
+        d = d * 31 + texts.signsOut(read, 0, read.size());
       }
     }
     return d;
-  }
-
-  private int lengthOut(Row row) {
-    out.setLength(0);
-    texts.textOut(row, 0, row.size(), out);
-    return out.length();
   }
 
   private long digestOut(long start) {
@@ -768,7 +791,8 @@ public final class Wordbefore {
       for (int what = 0; what <= 4; what++) {
         d = d * 31 + ofName(i, what);
       }
-      d = d * 31 + lengthOut(names.bodyOf(slot));
+      Row body = names.bodyOf(slot);
+      d = d * 31 + texts.signsOut(body, 0, body.size());
     }
     for (int i = 0; i < runner.total(Runner.LEANS); i++) {
       d = d * 31 + texts.length(runner.leanAt(i));
@@ -1113,7 +1137,11 @@ public final class Wordbefore {
     }
   }
 
-  /** Every spelling is kept once and has a number, so that equal spellings are equal ints; and texts are read. */
+  /**
+   * Every spelling is kept once and has a number, so that equal spellings are equal ints; and texts are read. A spelling
+   * that is not SHORT, which only QUOTING and PASTING can make, is kept by its parts: its signs may double with every
+   * STEP, its parts do not.
+   */
   private static final class Texts {
     static final int NOTHING = 0;
     static final int OPEN = 1;
@@ -1169,93 +1197,244 @@ public final class Wordbefore {
     private static final String KNOWN_BEHIND =
         "line error ? : || && | ^ & == != < <= > >= << >> + - * / % ! ~ ";
 
-    /** QUOTED again and again a text doubles; what is longer than any machine could hold is cut off here. */
-    private static final int LONGEST = 300000;
-    private static final int ALL_SIGNS = 1500000;
+    /** No WORD of a JOINED LINE has more signs, and so no NAME that is DEFINED. */
+    private static final int SHORT = 512;
+    /** A text of more signs fits into no room in which calls are made; it ends there. */
+    private static final int MOST_SIGNS = 30000000;
+    /** Signs are counted up to here, which is far beyond what an int holds. */
+    private static final long MOST_COUNTED = 1L << 40;
+    private static final int MOST_DOUBLINGS = 40;
     private static final int BUCKETS = 512;
     private static final int GREATEST = 2147483647;
 
-    /** The spellings, one behind the other; each ends where the next one starts. */
+    /** What is kept of each spelling; its signs and its parts end where those of the next one begin. */
+    private static final int SIGNS_FROM = 0;
+    private static final int PARTS_FROM = 1;
+    private static final int KEPT_BEFORE = 2;
+    private static final int BUCKET = 3;
+    private static final int FIRST_SIGN = 4;
+    private static final int FORM = 5;
+    private static final int WIDTH = 6;
+
+    private static final int SIGN_BY_SIGN = 0;
+    private static final int JOINED = 1;
+    private static final int IN_QUOTES = 2;
+
+    /** What is kept of each spelling through whose parts spell() goes. */
+    private static final int WHOLE = 0;
+    private static final int NEXT_PART = 1;
+    private static final int QUOTED_TIMES = 2;
+    private static final int PATH = 3;
+
     private final StringBuilder signs = new StringBuilder();
-    private int[] starts = new int[256];
+    /** Twice the number of a spelling each, and 1 more, if a blank stands ahead of it. */
+    private int[] parts = new int[64];
+    private int partCount;
+    private int[] cells = new int[256 * WIDTH];
+    /** Of each spelling how many signs it has, and how many of these are "'". */
+    private long[] sizes = new long[256 * 2];
     private int count = 1;
-    /** Of each bucket the spelling that was kept last, and of each spelling the one that was kept before it there. */
+    /** Of each bucket the spelling that was kept last. */
     private final int[] heads = new int[BUCKETS];
-    private int[] befores = new int[256];
+    private final int knownCount;
     /** The text that is read. */
     private final StringBuilder source = new StringBuilder();
+    private final StringBuilder scratch = new StringBuilder();
+    private int[] path = new int[16 * PATH];
 
     Texts() {
-      StringBuilder known = new StringBuilder();
-      known.append(KNOWN).append(KNOWN_BEHIND);
+      scratch.append(KNOWN).append(KNOWN_BEHIND);
       int start = 0;
-      for (int i = 0; i < known.length(); i++) {
-        if (known.charAt(i) == ' ') {
-          keep(known, start, i);
+      for (int i = 0; i < scratch.length(); i++) {
+        if (scratch.charAt(i) == ' ') {
+          keep(scratch, start, i);
           start = i + 1;
         }
+      }
+      knownCount = count;
+    }
+
+    /** How many spellings are kept. */
+    int count() {
+      return count;
+    }
+
+    /** Lets go of all spellings but the first ones; those that are KNOWN stay. */
+    void keepFirst(int many) {
+      int left = Math.max(many, knownCount);
+      for (int i = count - 1; i >= left; i--) {
+        heads[cells[i * WIDTH + BUCKET]] = cells[i * WIDTH + KEPT_BEFORE];
+      }
+      if (left < count) {
+        count = left;
+        signs.setLength(cells[count * WIDTH + SIGNS_FROM]);
+        partCount = cells[count * WIDTH + PARTS_FROM];
       }
     }
 
     /** The number of the spelling that stands in a text from first up to end. */
     int keep(StringBuilder from, int first, int end) {
-      int length = Math.min(Math.min(end, from.length()) - first, LONGEST);
+      int length = Math.min(end, from.length()) - first;
       if (first < 0 || length <= 0) {
         return NOTHING;
       }
       int hash = length;
+      int quotes = 0;
       for (int i = 0; i < length; i++) {
         hash = hash * 31 + from.charAt(first + i);
+        quotes += from.charAt(first + i) == '\'' ? 1 : 0;
       }
       int bucket = Math.floorMod(hash, BUCKETS);
       int at = heads[bucket];
       for (int i = 0; i < count && at > 0; i++) {
-        boolean like = starts[at + 1] - starts[at] == length;
+        int start = cells[at * WIDTH + SIGNS_FROM];
+        boolean like = cells[at * WIDTH + FORM] == SIGN_BY_SIGN && sizes[2 * at] == length;
         for (int k = 0; k < length && like; k++) {
-          like = signs.charAt(starts[at] + k) == from.charAt(first + k);
+          like = signs.charAt(start + k) == from.charAt(first + k);
         }
         if (like) {
           return at;
         }
-        at = befores[at];
-      }
-      int start = starts[count];
-      if (start + length > ALL_SIGNS) {
-        return ZERO;
-      }
-      if (count + 2 > starts.length) {
-        starts = Arrays.copyOf(starts, 2 * starts.length);
-        befores = Arrays.copyOf(befores, 2 * befores.length);
+        at = cells[at * WIDTH + KEPT_BEFORE];
       }
       for (int i = 0; i < length; i++) {
         signs.append(from.charAt(first + i));
       }
-      starts[count + 1] = start + length;
-      befores[count] = heads[bucket];
+      return add(bucket, SIGN_BY_SIGN, from.charAt(first), length, quotes);
+    }
+
+    /** The number of the spelling that is made of parts, which stand behind all others up to end. */
+    private int keepParts(int end, int form, long length, long quotes) {
+      int hash = form;
+      for (int i = partCount; i < end && i < parts.length; i++) {
+        hash = hash * 31 + parts[i];
+      }
+      int bucket = Math.floorMod(hash, BUCKETS);
+      int at = heads[bucket];
+      for (int i = 0; i < count && at > 0; i++) {
+        int start = cells[at * WIDTH + PARTS_FROM];
+        int many = cells[(at + 1) * WIDTH + PARTS_FROM] - start;
+        boolean like = cells[at * WIDTH + FORM] == form && many == end - partCount;
+        for (int k = 0; k < many && like; k++) {
+          like = parts[start + k] == parts[partCount + k];
+        }
+        if (like) {
+          return at;
+        }
+        at = cells[at * WIDTH + KEPT_BEFORE];
+      }
+      char first = form == IN_QUOTES ? '\'' : firstSign(parts[partCount] / 2);
+      partCount = end;
+      return add(bucket, form, first, length, quotes);
+    }
+
+    private int add(int bucket, int form, char first, long length, long quotes) {
+      if ((count + 2) * WIDTH > cells.length) {
+        cells = Arrays.copyOf(cells, 2 * cells.length);
+        sizes = Arrays.copyOf(sizes, 2 * sizes.length);
+      }
+      int at = count * WIDTH;
+      cells[at + KEPT_BEFORE] = heads[bucket];
+      cells[at + BUCKET] = bucket;
+      cells[at + FIRST_SIGN] = first;
+      cells[at + FORM] = form;
+      cells[at + WIDTH + SIGNS_FROM] = signs.length();
+      cells[at + WIDTH + PARTS_FROM] = partCount;
+      sizes[2 * count] = Math.min(length, MOST_COUNTED);
+      sizes[2 * count + 1] = Math.min(quotes, MOST_COUNTED);
       heads[bucket] = count;
       count++;
       return count - 1;
     }
 
+    private void setPart(int at, int spelling, boolean blank) {
+      if (at >= parts.length) {
+        parts = Arrays.copyOf(parts, 2 * at);
+      }
+      if (at >= 0 && at < parts.length) {
+        parts[at] = 2 * spelling + (blank ? 1 : 0);
+      }
+    }
+
+    private long signsOf(int spelling) {
+      return spelling > 0 && spelling < count ? sizes[2 * spelling] : 0;
+    }
+
+    private long quotesOf(int spelling) {
+      return spelling > 0 && spelling < count ? sizes[2 * spelling + 1] : 0;
+    }
+
+    /** How many signs a spelling has. */
     int length(int spelling) {
-      return spelling > 0 && spelling < count ? starts[spelling + 1] - starts[spelling] : 0;
+      return (int) Math.min(signsOf(spelling), GREATEST);
     }
 
     char firstSign(int spelling) {
-      return spelling > 0 && spelling < count ? signs.charAt(starts[spelling]) : ' ';
+      return spelling > 0 && spelling < count ? (char) cells[spelling * WIDTH + FIRST_SIGN] : ' ';
     }
 
-    void spell(int spelling, StringBuilder into) {
-      if (spelling > 0 && spelling < count) {
-        for (int i = starts[spelling]; i < starts[spelling + 1]; i++) {
-          into.append(signs.charAt(i));
+    /** A sign of a spelling that is kept sign by sign. */
+    private char signAt(int spelling, int i) {
+      int at = cells[spelling * WIDTH + SIGNS_FROM] + i;
+      return i >= 0 && at < cells[(spelling + 1) * WIDTH + SIGNS_FROM] ? signs.charAt(at) : ' ';
+    }
+
+    /** Lays a spelling behind a text as it is inside of so many quotes: for each of them each "'" is typed twice. */
+    void spell(int spelling, int quotedTimes, StringBuilder into) {
+      int begun = spelling > 0 && spelling < count ? spelling : NOTHING;
+      int times = quotedTimes;
+      int deep = 0;
+      for (int i = 0; i < 4 * MOST_SIGNS && (begun != NOTHING || deep > 0) && into.length() < MOST_SIGNS; i++) {
+        int at = (deep - 1) * PATH;
+        if (begun != NOTHING && cells[begun * WIDTH + FORM] == SIGN_BY_SIGN) {
+          for (int k = cells[begun * WIDTH + SIGNS_FROM]; k < cells[(begun + 1) * WIDTH + SIGNS_FROM]; k++) {
+            spellSign(signs.charAt(k), times, into);
+          }
+          begun = NOTHING;
+        } else if (begun != NOTHING) {
+          if (cells[begun * WIDTH + FORM] == IN_QUOTES) {
+            spellSign('\'', times, into);
+          }
+          deep++;
+          beginParts(begun, times, deep);
+          begun = NOTHING;
+        } else if (path[at + NEXT_PART] < cells[(path[at + WHOLE] + 1) * WIDTH + PARTS_FROM]) {
+          int part = parts[path[at + NEXT_PART]];
+          path[at + NEXT_PART]++;
+          if (part % 2 == 1) {
+            into.append(' ');
+          }
+          begun = part / 2;
+          times = path[at + QUOTED_TIMES] + (cells[path[at + WHOLE] * WIDTH + FORM] == IN_QUOTES ? 1 : 0);
+        } else {
+          if (cells[path[at + WHOLE] * WIDTH + FORM] == IN_QUOTES) {
+            spellSign('\'', path[at + QUOTED_TIMES], into);
+          }
+          deep--;
         }
+      }
+    }
+
+    private void beginParts(int spelling, int quotedTimes, int deep) {
+      if (deep * PATH > path.length) {
+        path = Arrays.copyOf(path, 2 * deep * PATH);
+      }
+      int at = (deep - 1) * PATH;
+      path[at + WHOLE] = spelling;
+      path[at + NEXT_PART] = cells[spelling * WIDTH + PARTS_FROM];
+      path[at + QUOTED_TIMES] = quotedTimes;
+    }
+
+    private static void spellSign(char c, int quotedTimes, StringBuilder into) {
+      int doublings = c == '\'' ? Math.min(quotedTimes, MOST_DOUBLINGS) : 0;
+      for (long i = 0; i < 1L << doublings && into.length() < MOST_SIGNS; i++) {
+        into.append(c);
       }
     }
 
     /** A KIND is told by the first sign. */
     int kind(int spelling) {
-      char c = spelling > 0 && spelling < count ? signs.charAt(starts[spelling]) : ' ';
+      char c = spelling > 0 && spelling < count ? (char) cells[spelling * WIDTH + FIRST_SIGN] : ' ';
       if (c == '\'') {
         return TEXT;
       }
@@ -1265,12 +1444,12 @@ public final class Wordbefore {
       return c == '_' || c >= 'A' && c <= 'Z' || c >= 'a' && c <= 'z' ? NAME : SIGN;
     }
 
-    /** Less than 0, 0 or more, as one spelling is ahead of another by the signs' codes. */
+    /** Less than 0, 0 or more, as one spelling is ahead of another by the signs' codes; both are SHORT. */
     int compare(int one, int other) {
       int length = length(one);
       int otherLength = length(other);
       for (int i = 0; i < length && i < otherLength; i++) {
-        int apart = signs.charAt(starts[one] + i) - signs.charAt(starts[other] + i);
+        int apart = signAt(one, i) - signAt(other, i);
         if (apart != 0) {
           return apart;
         }
@@ -1295,24 +1474,31 @@ public final class Wordbefore {
 
     /** The VALUE of a NUMBER; NONE, if it has none. */
     long value(int spelling) {
-      int length = length(spelling);
-      int at = length > 0 ? starts[spelling] : 0;
+      makeRoom(scratch, signsOf(spelling));
+      spell(spelling, 0, scratch);
+      int length = scratch.length();
       int base = 10;
       int from = 0;
-      if (length > 1 && signs.charAt(at) == '0') {
-        char second = signs.charAt(at + 1);
+      if (length > 1 && scratch.charAt(0) == '0') {
+        char second = scratch.charAt(1);
         base = second == 'x' ? 16 : second == 'b' ? 2 : 8;
         from = base == 8 ? 1 : 2;
       }
       long value = from < length ? 0 : NONE;
       for (int i = from; i < length && value >= 0; i++) {
-        int digit = digit(signs.charAt(at + i));
+        int digit = digit(scratch.charAt(i));
         value = digit < base ? value * base + digit : NONE;
         if (value > GREATEST) {
           value = NONE;
         }
       }
       return value;
+    }
+
+    /** A text without signs, into which so many fit and hardly more: what it outgrew would take up room, too. */
+    static void makeRoom(StringBuilder text, long many) {
+      text.setLength((int) Math.min(many, MOST_SIGNS));
+      text.setLength(0);
     }
 
     private static int digit(char c) {
@@ -1414,63 +1600,116 @@ public final class Wordbefore {
       return source.length();
     }
 
-    /** Whether reading two spellings, one directly behind the other, gives just these two. */
+    /** Whether reading two WORDS, one directly behind the other, gives just these two. */
     boolean apart(int one, int other) {
-      source.setLength(0);
-      spell(one, source);
-      int first = source.length();
-      spell(other, source);
-      int length = source.length();
-      return first > 0 && first < length && endOfWord(0) == first && endOfWord(first) == length;
+      int kind = kind(one);
+      int otherKind = kind(other);
+      if (kind == SIGN && otherKind == SIGN) {
+        int first = laySigns(one, other);
+        return endOfWord(0) == first && endOfWord(first) == source.length();
+      }
+      return kind == SIGN || (kind == TEXT ? otherKind != TEXT : otherKind == TEXT || otherKind == SIGN);
     }
 
-    /** The spelling that PASTING gives; NONE, if it is NO WORD. */
-    int pasted(int one, int other) {
-      source.setLength(0);
-      spell(one, source);
-      spell(other, source);
-      int length = source.length();
-      return length > 0 && endOfWord(0) == length ? keep(source, 0, length) : NONE;
+    /** Whether reading two WORDS, one directly behind the other, gives just one. */
+    boolean isOneWord(int one, int other) {
+      int kind = kind(one);
+      int otherKind = kind(other);
+      if (kind == SIGN && otherKind == SIGN) {
+        laySigns(one, other);
+        return endOfWord(0) == source.length();
+      }
+      return kind == TEXT ? otherKind == TEXT : kind != SIGN && (otherKind == NAME || otherKind == NUMBER);
     }
 
-    /** Both spellings as one text. */
+    /** Two SIGNS become the text that is read; tells where the second one begins. */
+    private int laySigns(int one, int other) {
+      source.setLength(0);
+      int first = 0;
+      for (int i = 0; i < 2; i++) {
+        int spelling = i == 0 ? one : other;
+        first = source.length();
+        boolean kept = spelling > 0 && spelling < count;
+        for (int k = 0; kept && k < sizes[2 * spelling]; k++) {
+          source.append(signs.charAt(cells[spelling * WIDTH + SIGNS_FROM] + k));
+        }
+      }
+      return first;
+    }
+
+    /** Both spellings as one, which may be that of no WORD. */
     int joined(int one, int other) {
-      source.setLength(0);
-      spell(one, source);
-      spell(other, source);
-      return keep(source, 0, source.length());
+      long length = signsOf(one) + signsOf(other);
+      if (one == NOTHING || other == NOTHING) {
+        return one == NOTHING ? other : one;
+      }
+      if (length > SHORT) {
+        setPart(partCount, one, false);
+        setPart(partCount + 1, other, false);
+        return keepParts(partCount + 2, JOINED, length, quotesOf(one) + quotesOf(other));
+      }
+      scratch.setLength(0);
+      spell(one, 0, scratch);
+      spell(other, 0, scratch);
+      return keep(scratch, 0, scratch.length());
     }
 
     void textOut(Row row, int first, int end, StringBuilder into) {
-      for (int i = first; i < end && into.length() < ALL_SIGNS; i++) {
+      for (int i = first; i < end; i++) {
         if (i > first && !apart(row.spelling(i - 1), row.spelling(i))) {
           into.append(' ');
         }
-        spell(row.spelling(i), into);
+        spell(row.spelling(i), 0, into);
       }
     }
 
-    private void spellQuoted(int spelling, StringBuilder into) {
-      if (spelling > 0 && spelling < count) {
-        for (int i = starts[spelling]; i < starts[spelling + 1]; i++) {
-          into.append(signs.charAt(i));
-          if (signs.charAt(i) == '\'') {
-            into.append('\'');
-          }
+    /** How many signs TEXT OUT has. */
+    long signsOut(Row row, int first, int end) {
+      long many = 0;
+      for (int i = first; i < end; i++) {
+        many += signsOf(row.spelling(i));
+        if (i > first && !apart(row.spelling(i - 1), row.spelling(i))) {
+          many++;
         }
       }
+      return many;
     }
 
     void quote(Row row, int first, int end, StringBuilder into) {
       into.append('\'');
-      for (int i = first; i < end && into.length() < ALL_SIGNS; i++) {
-        int spelling = row.spelling(i);
-        if (i > first && (row.marks(i) != 0 || !apart(row.spelling(i - 1), spelling))) {
+      for (int i = first; i < end; i++) {
+        if (i > first && (row.marks(i) != 0 || !apart(row.spelling(i - 1), row.spelling(i)))) {
           into.append(' ');
         }
-        spellQuoted(spelling, into);
+        spell(row.spelling(i), 1, into);
       }
       into.append('\'');
+    }
+
+    /** The number of the spelling of a QUOTED row. */
+    int quotedRow(Row row, int first, int end) {
+      long length = 2;
+      long quotes = 2;
+      for (int i = first; i < end; i++) {
+        boolean blank = i > first && (row.marks(i) != 0 || !apart(row.spelling(i - 1), row.spelling(i)));
+        long doubled = quotesOf(row.spelling(i));
+        setPart(partCount + i - first, row.spelling(i), blank);
+        length += signsOf(row.spelling(i)) + doubled + (blank ? 1 : 0);
+        quotes += 2 * doubled;
+      }
+      if (length > SHORT) {
+        return keepParts(partCount + end - first, IN_QUOTES, length, quotes);
+      }
+      scratch.setLength(0);
+      scratch.append('\'');
+      for (int i = first; i < end; i++) {
+        if (parts[partCount + i - first] % 2 == 1) {
+          scratch.append(' ');
+        }
+        spell(row.spelling(i), 1, scratch);
+      }
+      scratch.append('\'');
+      return keep(scratch, 0, scratch.length());
     }
   }
 
@@ -2063,7 +2302,6 @@ public final class Wordbefore {
     private final Names names;
     private final Row made = new Row(NOT_KEPT + 1);
     private final Row next = new Row(16);
-    private final StringBuilder text = new StringBuilder();
 
     Incoming(Texts texts, Names names) {
       this.texts = texts;
@@ -2084,9 +2322,7 @@ public final class Wordbefore {
           takeWord(body, i, row, w);
           i++;
           int quoted = names.parameterSpelled(call.slot(), body.spelling(i));
-          text.setLength(0);
-          texts.quote(call.typed(), call.typedStart(quoted), call.typedEnd(quoted), text);
-          next.setSpelling(0, texts.keep(text, 0, text.length()));
+          next.setSpelling(0, texts.quotedRow(call.typed(), call.typedStart(quoted), call.typedEnd(quoted)));
         } else {
           int parameter = names.parameterSpelled(call.slot(), body.spelling(i));
           if (parameter == NONE) {
@@ -2096,12 +2332,8 @@ public final class Wordbefore {
             next.setMarks(0, body.marks(i));
           }
         }
-        int taken = 0;
-        if (pastes) {
-          int pasted = texts.pasted(made.spelling(made.size() - 1), next.spelling(0));
-          taken = takePasted(pasted, row, w, tally);
-        }
-        append(taken);
+        int both = pastes ? texts.joined(made.spelling(made.size() - 1), next.spelling(0)) : Texts.NOTHING;
+        append(pastes ? takePasted(both, row, w, tally) : 0);
         pastes = false;
       }
       complete(row, w, tally);
@@ -2127,8 +2359,8 @@ public final class Wordbefore {
       }
     }
 
-    /** What was made last becomes what PASTING gave; tells how many of the next ones it took. */
-    private int takePasted(int pasted, Row row, int w, Tally tally) {
+    /** What was made last becomes what PASTING gives; tells how many of the next ones it took. */
+    private int takePasted(int both, Row row, int w, Tally tally) {
       int last = made.size() - 1;
       int one = made.spelling(last);
       int other = next.spelling(0);
@@ -2139,12 +2371,12 @@ public final class Wordbefore {
       if (other == Texts.NOTHING) {
         return 1;
       }
-      if (pasted == NONE) {
+      if (!texts.isOneWord(one, other)) {
         next.setMarks(0, 0);
-        tally.addError(NO_WORD, row.toldFile(w), row.toldLine(w), texts.joined(one, other));
+        tally.addError(NO_WORD, row.toldFile(w), row.toldLine(w), both);
         return 0;
       }
-      made.setSpelling(last, pasted);
+      made.setSpelling(last, both);
       made.hide(last, next.hidden(0));
       return 1;
     }
