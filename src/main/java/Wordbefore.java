@@ -1366,7 +1366,7 @@ public final class Wordbefore {
 
     /** How many signs a spelling has. */
     int length(int spelling) {
-      return (int) Math.min(signsOf(spelling), GREATEST);
+      return spelling > 0 && spelling < count ? (int) Math.min(sizes[2 * spelling], GREATEST) : 0;
     }
 
     char firstSign(int spelling) {

@@ -75,24 +75,68 @@ public final class ModelTest {
   }
 
   static final Pattern WORD = Pattern.compile("(?<blank> )|(?<comment>\\[[^\\]]*\\]?)|[A-Za-z_][A-Za-z0-9_]*"
-      + "|[0-9][A-Za-z0-9_]*|(?<text>'(?:''|[^'])*+')|(?<open>'.*)|\\.\\.\\.|\\.\\.|##|\\+\\+|--|<<|<=|>>|>=|==|!=|&&"
-      + "|\\|\\||.");
+      + "|[0-9][A-Za-z0-9_]*|\\.\\.\\.|\\.\\.|##|\\+\\+|--|<<|<=|>>|>=|==|!=|&&|\\|\\||.");
+
+  /** A text has become too long for the model; the run ends without a word on it. */
+  static final class TooLong extends Error {
+    private static final long serialVersionUID = 1;
+
+    TooLong() {
+      super(null, null, false, false);
+    }
+  }
+
+  static int longest = 400000;
+
+  static String kept(String s) {
+    if (s.length() > longest) {
+      throw new TooLong();
+    }
+    return s;
+  }
+
+  /** Where the TEXT ends that begins there; -1, if nothing ends it. */
+  static int endOfText(String text, int from) {
+    int at = from + 1;
+    while (true) {
+      at = text.indexOf('\'', at);
+      if (at < 0) {
+        return -1;
+      }
+      if (at + 1 == text.length() || text.charAt(at + 1) != '\'') {
+        return at + 1;
+      }
+      at += 2;
+    }
+  }
 
   static List<Word> read(String text, int[] places, int file, int line, boolean joined) {
     List<Word> row = new ArrayList<>();
     Matcher m = WORD.matcher(text);
     boolean blank = false;
-    while (m.find()) {
-      if (m.group("blank") != null || m.group("comment") != null) {
-        blank = true;
-        continue;
+    int at = 0;
+    while (at < text.length()) {
+      int start = at;
+      String s;
+      if (text.charAt(at) == '\'') {
+        int end = endOfText(text, at);
+        at = end < 0 ? text.length() : end;
+        s = text.substring(start, at) + (end < 0 ? "'" : "");
+      } else {
+        m.region(at, text.length()).lookingAt();
+        at = m.end();
+        s = m.group();
+        if (m.group("blank") != null || m.group("comment") != null) {
+          blank = true;
+          continue;
+        }
       }
-      Word w = new Word(m.group("open") != null ? m.group() + "'" : m.group());
+      Word w = new Word(s);
       w.blank = blank;
       w.isNew = joined && row.isEmpty();
       w.file = file;
       w.line = line;
-      w.chain.add(places == null ? 99999 : places[m.start()]);
+      w.chain.add(places == null ? 99999 : places[start]);
       row.add(w);
       blank = false;
     }
@@ -119,7 +163,7 @@ public final class ModelTest {
       }
       b.append(row.get(i).s);
     }
-    return b.toString();
+    return kept(b.toString());
   }
 
   static String quote(List<Word> row) {
@@ -131,7 +175,7 @@ public final class ModelTest {
       }
       b.append(w.s);
     }
-    return "'" + b.toString().replace("'", "''") + "'";
+    return kept("'" + b.toString().replace("'", "''") + "'");
   }
 
   static String inside(String quoted) {
@@ -139,6 +183,7 @@ public final class ModelTest {
   }
 
   static Word paste(Word a, Word b) {
+    kept(a.s + b.s);
     List<String> list = spellings(read(a.s + b.s, null, 0, 0, false));
     if (!list.equals(List.of(a.s + b.s))) {
       return null;
@@ -955,7 +1000,7 @@ public final class ModelTest {
     List<String> words = spellings(name.body);
     int n = words.size();
     if (n > 20 || n > 0 && (words.get(0).equals("##") || words.get(n - 1).equals("##"))
-        || String.join(" ", words).matches("(.* )?## ##( .*)?")) {
+        || Collections.indexOfSubList(words, List.of("##", "##")) >= 0) {
       return null;
     }
     for (int i = 0; i < n && name.parameters != null; i++) {
@@ -1507,13 +1552,22 @@ public final class ModelTest {
   private boolean same(String call, Asked ofReal, Asked ofModel) {
     calls.add(call);
     String got = answer(ofReal);
-    String due = answer(ofModel);
+    String due;
+    try {
+      due = answer(ofModel);
+    } catch (TooLong tooLong) {
+      return false;
+    }
     if (!got.equals(due)) {
       wrong++;
-      System.out.println(String.join("; ", calls) + " answered " + got + ", the model says " + due);
+      System.out.println(String.join("; ", calls) + " answered " + brief(got) + ", the model says " + brief(due));
       return false;
     }
     return true;
+  }
+
+  private static String brief(String s) {
+    return s.length() < 400 ? s : s.substring(0, 400) + ".. (" + s.length() + " signs)";
   }
 
   private int any(int n) {
@@ -1889,7 +1943,7 @@ public final class ModelTest {
 
   private boolean typeText(int file, List<Integer> text) {
     boolean good = true;
-    for (int i = 0; i < text.size() && good && i < 40; i += 5) {
+    for (int i = 0; i < text.size() && good && i < 50; i += 5) {
       int[] p = new int[5];
       for (int k = 0; k < 5; k++) {
         p[k] = i + k < text.size() ? text.get(i + k) : 0;
@@ -1902,6 +1956,119 @@ public final class ModelTest {
               () -> more(file, p[0], p[1], p[2], p[3], p[4]));
     }
     return good;
+  }
+
+  /** Types a text, on as many LINES as it needs. */
+  private boolean typeAll(int file, String text) {
+    List<List<Integer>> lines = new ArrayList<>();
+    lines.add(new ArrayList<>());
+    int used = 0;
+    for (int at = 0; at < text.length();) {
+      int best = 0;
+      for (int piece = 1; piece < PIECES.length; piece++) {
+        if (PIECES[piece].length() > PIECES[best].length() && text.startsWith(PIECES[piece], at)) {
+          best = piece;
+        }
+      }
+      int length = PIECES[best].length();
+      if (used + length > 47) {
+        lines.get(lines.size() - 1).add(54);
+        lines.add(new ArrayList<>());
+        used = 0;
+      }
+      lines.get(lines.size() - 1).add(best);
+      used += length;
+      at += length;
+    }
+    boolean good = true;
+    for (List<Integer> line : lines) {
+      good = good && typeText(file, line);
+    }
+    return good;
+  }
+
+  private String oneOf(String... all) {
+    return all[any(all.length)];
+  }
+
+  /** So many words, with the same between all neighbours. */
+  private String manyOf(String word, int n) {
+    String between = oneOf(" ", " ", " ", "##", " ## ", "+");
+    StringBuilder b = new StringBuilder(word);
+    int most = between.equals(" ") ? n : Math.min(n, 9);
+    for (int i = 1; i < most; i++) {
+      b.append(any(12) == 0 ? " " : between).append(word);
+    }
+    return b.toString();
+  }
+
+  private String nested(int depth) {
+    if (depth == 0) {
+      return oneOf("1", "x y", "'it''s'", "C", "_", "0", "");
+    }
+    String name = oneOf("G", "G", "G", "G", "G", "G", "G", "H", "A", "B");
+    String inner = nested(depth - 1);
+    switch (name) {
+      case "G":
+        return "G(" + inner + "," + (any(6) == 0 ? nested(depth - 1) : "") + ")";
+      case "H":
+        return "H(" + inner + oneOf("", ",", ",x,y") + ")";
+      default:
+        return name + "(" + inner + ")";
+    }
+  }
+
+  /** TEXTS and NAMES that become long by being QUOTED and PASTED again and again. */
+  private boolean growTexts() {
+    boolean good = same("empty(0)", () -> real.empty(0), () -> empty(0));
+    String quoted = oneOf("F(", "F(", "F(", "F(", "F(", "F(", "A(", "(");
+    good = good && typeAll(0, oneOf("#define F(x) #x", "#define F(x) #x", "#define F(...) #MORE",
+        "#define F(x) #x##x", "#define F(x) x##x##x##x##x"));
+    good = good && typeAll(0, "#define G(x, y) " + quoted + manyOf("x", 2 + any(16)) + ")" + oneOf("", "y"));
+    if (any(2) == 0) {
+      good = good && typeAll(0, oneOf("#define H(x, ...) " + manyOf("x", 1 + any(9)) + oneOf("", " MORE", "##MORE"),
+          "#define H(x, ...) F(" + manyOf("x", 1 + any(9)) + ")MORE"));
+    }
+    if (any(2) == 0) {
+      good = good && typeAll(0, oneOf("#define A(x) F(", "#define A(x) B(F(", "#define A(x) G(")
+          + manyOf("x", 1 + any(6)) + oneOf(")", "))", ",)"));
+      good = good && typeAll(0, oneOf("#define B(x) x + #x", "#define B(x) H(F(x),x)", "#define B(x) x ## x ## x"));
+    }
+    String call = nested(2 + any(6));
+    int last = Math.min(files.get(0).size(), 9);
+    good = good && typeAll(0, oneOf("", "", "", "", "", "", "", "#if ", "#include ")
+        + (call.length() < 94 ? call : nested(2)));
+    good = good && same("run(0)", () -> real.run(0), () -> run(0));
+    for (int i = 0; i < 4 && good; i++) {
+      int k = near(out.size());
+      int e = near(tally.faults.size());
+      good = same("ofOut(" + k + ", 7)", () -> real.ofOut(k, 7), () -> ofOut(k, 7))
+          && same("ofOut(" + k + ", 0)", () -> real.ofOut(k, 0), () -> ofOut(k, 0))
+          && same("ofOut(" + k + ", 8)", () -> real.ofOut(k, 8), () -> ofOut(k, 8))
+          && (any(2) == 0 || same("outWord(" + k + ")", () -> real.outWord(k), () -> outWord(k)))
+          && (any(2) == 0 || same("errorText(" + e + ")", () -> real.errorText(e), () -> errorText(e)));
+    }
+    return good && same("digest()", () -> real.digest(), () -> digest())
+        && same("outLine(0)", () -> real.outLine(0), () -> outLine(0)) && growOnDesk(last);
+  }
+
+  private boolean growOnDesk(int line) {
+    boolean good = same("would(0, " + line + ")", () -> real.would(0, line), () -> would(0, line))
+        && same("ofWould(0, " + line + ", 2)", () -> real.ofWould(0, line, 2), () -> ofWould(0, line, 2))
+        && same("reckon(0, " + line + ")", () -> real.reckon(0, line), () -> reckon(0, line))
+        && same("load(0, " + line + ")", () -> real.load(0, line), () -> load(0, line));
+    for (int i = 0; i < 3 && good; i++) {
+      int name = any(3) == 0 ? 8 : 6;
+      good = same("finish()", () -> real.finish(), () -> finish())
+          && (any(2) == 0 || same("desk()", () -> real.desk(), () -> desk()))
+          && same("digest()", () -> real.digest(), () -> digest())
+          && same("cursor(0)", () -> real.cursor(0), () -> cursor(0))
+          && same("put(" + name + ")", () -> real.put(name), () -> put(name))
+          && same("put(28)", () -> real.put(28), () -> put(28))
+          && same("tail(29)", () -> real.tail(29), () -> tail(29))
+          && same("cursor(0)", () -> real.cursor(0), () -> cursor(0));
+    }
+    return good && same("desk()", () -> real.desk(), () -> desk());
   }
 
   private boolean typeManyNames() {
@@ -1970,8 +2137,11 @@ public final class ModelTest {
     return good && same("digest", () -> real.digest(), () -> digest());
   }
 
-  private void play(boolean whole) {
+  private void play(boolean whole, boolean grows) {
     boolean good = same("digest()", () -> real.digest(), () -> digest());
+    while (good && grows && calls.size() < 360) {
+      good = growTexts();
+    }
     while (good && calls.size() < 512 && !whole) {
       int way = any(100);
       int file = any(30) == 0 ? near(4) : any(2) * any(4);
@@ -1987,7 +2157,7 @@ public final class ModelTest {
     int runs = args.length > 0 ? Integer.parseInt(args[0]) : 300;
     long seed = args.length > 1 ? Long.parseLong(args[1]) : 1;
     for (int i = 0; i < runs && wrong < 5; i++) {
-      new ModelTest(seed + i).play(i % 4 > 0);
+      new ModelTest(seed + i).play(i % 4 > 0, i % 10 == 9);
     }
     if (wrong > 0) {
       System.exit(1);
