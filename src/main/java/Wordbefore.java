@@ -1375,8 +1375,9 @@ public final class Wordbefore {
 
     /** A sign of a spelling that is kept sign by sign. */
     private char signAt(int spelling, int i) {
-      int at = cells[spelling * WIDTH + SIGNS_FROM] + i;
-      return i >= 0 && at < cells[(spelling + 1) * WIDTH + SIGNS_FROM] ? signs.charAt(at) : ' ';
+      boolean kept = spelling > 0 && spelling < count && i >= 0;
+      int at = kept ? cells[spelling * WIDTH + SIGNS_FROM] + i : 0;
+      return kept && at < cells[(spelling + 1) * WIDTH + SIGNS_FROM] ? signs.charAt(at) : ' ';
     }
 
     /** Lays a spelling behind a text as it is inside of so many quotes: for each of them each "'" is typed twice. */
@@ -1630,8 +1631,10 @@ public final class Wordbefore {
         int spelling = i == 0 ? one : other;
         first = source.length();
         boolean kept = spelling > 0 && spelling < count;
-        for (int k = 0; kept && k < sizes[2 * spelling]; k++) {
-          source.append(signs.charAt(cells[spelling * WIDTH + SIGNS_FROM] + k));
+        int at = kept ? cells[spelling * WIDTH + SIGNS_FROM] : 0;
+        int end = kept ? cells[(spelling + 1) * WIDTH + SIGNS_FROM] : 0;
+        for (int k = at; k < end; k++) {
+          source.append(signs.charAt(k));
         }
       }
       return first;

@@ -1,5 +1,6 @@
 import java.util.ArrayList;
 import java.util.List;
+import java.util.TreeSet;
 import java.util.function.IntFunction;
 
 /**
@@ -105,6 +106,15 @@ public final class BoundariesTest {
     for (String line : lines.split("\n", -1)) {
       types(file, line);
     }
+  }
+
+  /** A text on as many LINES as it needs, all of them JOINED. */
+  private static String lines(String text) {
+    StringBuilder b = new StringBuilder();
+    for (int i = 0; i < text.length(); i++) {
+      b.append(i > 0 && i % 47 == 0 ? "\\\n" : "").append(text.charAt(i));
+    }
+    return b.toString();
   }
 
   private static String n(String s, int times) {
@@ -772,7 +782,7 @@ public final class BoundariesTest {
     run("#define A\n#define F()\n1 F();F();\nF();\nA; ;A");
     due("1;;|;|;;", () -> out());
     due("1 0|0 0|0 1|0 1|1 0", () -> all(5, i -> w.ofOut(i + 1, 1) + " " + w.ofOut(i + 1, 2)));
-    due("';;' '; ;'", () -> run("#define F(x)#x\n#define G(x)F(x)\n#define A\nG(;A;)G(; A;)"));
+    due("';;' '; ;' true", () -> run("#define F(x)#x\n#define G(x)F(x)\n#define A\nG(;A;)G(; A;)") + " " + w.isSound());
     due("|0|0", () -> run("#define A\n#define F(x)\nA\nF(1)") + "|" + w.ofRun(0) + "|" + w.ofRun(1));
     // "Made of the BODY ("#" too), a WORD has TOLD of W, those of arguments keep theirs."
     run("#define F(x)x y #x\nF(\nA\n)");
@@ -1013,6 +1023,7 @@ public final class BoundariesTest {
     due("7@0.1 #if COUNT+defined 1|0 0|1", () -> errors("#define A\n#if COUNT+defined 1\n#endif") + "|" + w.ofRun(3) + " "
         + w.ofRun(7) + "|" + w.ofRun(8));
     due("1|2", () -> run("#define A B\n#if defined A\n1\n#endif\n#if defined B\n#else\n2\n#endif"));
+    due("1|2|", () -> run("#define F(x)1##x\n#if F(defined A)==10\n1\n#endif\n#if F(defined F)==11\n2\n#endif") + "|" + errors());
     // ""defined" that comes in by EXPANDING is a NAME like others."
     due("2", () -> run("#define A defined\n#define F(x)x LINE\n#if A\n1\n#else\n2\n#endif\n#if F(A)\n#endif"));
     due("7@0.4 #if F(A)", () -> errors("#define A defined\n#define F(x)x B\n#if A\n#endif\n#if F(A)\n#endif"));
@@ -1050,7 +1061,7 @@ public final class BoundariesTest {
     // VALUE: "behind "0x" (not "0X") by base 16, behind "0b" by base 2, else behind a first "0" with signs behind it by base
     // 8, else by base 10; of all signs there (at least one) each must be a digit of that base (letters of either size), and it
     // is at most 2147483647"
-    String[] values = {"0", "0", "00", "0", "000", "0", "017", "15", "12", "12", "0x1F", "31", "0x0", "0", "0xA", "10", "0xF",
+    String[] values = {"0", "0", "00", "0", "000", "0", "017", "15", "12", "12", "0x1F", "31", "0x0", "0", "0xA", "10", "0x0b101", "45313", "10b101", STATE, "0xF",
         "15", "0xdefined", STATE, "0x7FFFFFFF", "2147483647", "0x00007FFFFFFF", "2147483647", "0x1FFFFFFFF", STATE,
         "017777777777", "2147483647", "020000000000", STATE, "0x", STATE, "0xG", STATE, "0x_", STATE, "0b101", "5", "0b1010",
         "10", "0b1012", STATE, "0b101A", STATE, "1A", STATE, "1_", STATE, "0_", STATE, "01A", STATE, "0B1", STATE, "0A", STATE,
@@ -1109,6 +1120,14 @@ public final class BoundariesTest {
       String text = ranks[i];
       due(ranks[i + 1], () -> reckon(text));
     }
+    // as many operands and brackets as a JOINED LINE holds
+    due(7, () -> reckon(lines(n("(", 150) + "7" + n(")", 150))));
+    due(-1, () -> reckon(lines(n("~", 301) + "0")));
+    due(0, () -> reckon(lines(n("1-(", 80) + "0" + n(")", 80))));
+    due(12, () -> reckon(lines(n("0?1:", 99) + "12")));
+    due(2, () -> reckon(lines(n("1?", 79) + "2" + n(":0", 79))));
+    due(120, () -> reckon(lines(n("1+", 119) + "1")));
+    due(STATE, () -> reckon(lines(n("(", 150) + "7" + n(")", 149))));
     // a condition that is not true for NO VALUE is told with the ORDER
     due("2|7@0.0 #if 1/0|7@0.1 #elif 1%0", () -> run("#if 1/0\n#elif 1%0\n1\n#else\n2\n#endif") + "|" + errors());
   }
@@ -1404,6 +1423,7 @@ public final class BoundariesTest {
     due("-1 0 1 8 2|2 1 1 108 1", () -> line(5, what -> w.ofName(0, what)) + "|" + line(5, what -> w.ofName(1, what)));
     reads();
     ofFiles();
+    manyNames();
     house();
     longTexts();
   }
@@ -1458,6 +1478,74 @@ public final class BoundariesTest {
     due("A|A1|AA|A_|Ax|B|_|x", () -> all(8, i -> w.unused(i)));
     run("#ifndef x\n#ifndef A1\n#ifndef _\n#ifndef A\n#ifndef AA\n#ifndef B\n#ifndef A_\n#ifndef Ax");
     due("A|A1|AA|A_|Ax|B|_|x", () -> all(8, i -> w.lean(i)));
+  }
+
+  /** As many different NAMES and WORDS as FILES can hold: what the document does not bound is kept whole. */
+  private static void manyNames() {
+    String[] names = new String[64];
+    for (int i = 0; i < 64; i++) {
+      names[i] = "ABCDFGHx".substring(i / 8, i / 8 + 1) + "ABCDFGHx".substring(i % 8, i % 8 + 1);
+    }
+    // 8 other NAMES in each RUN
+    files();
+    for (int i = 0; i < 64; i += 8) {
+      w.empty(0);
+      for (int k = 0; k < 8; k++) {
+        types(0, "#define " + names[i + k] + " " + (k < 7 ? names[i + k + 1] : "1"));
+      }
+      types(0, names[i]);
+      w.run(0);
+      due("8 8 1 8", () -> w.ofRun(4) + " " + w.ofOut(0, 4) + " " + w.outWord(0) + " " + w.ofRun(12));
+    }
+    // 22 NAMES in one RUN
+    StringBuilder text = new StringBuilder("#include 1\n#include 2\n#include 3");
+    String[] files = {"", "", "", ""};
+    int file = 1;
+    int lines = 0;
+    for (int i = 0; i < 22; i++) {
+      String more = (i < 8 ? "" : "#undef " + names[i - 8] + "\n") + "#define " + names[i] + " " + names[i + 1];
+      int adds = i < 8 ? 1 : 2;
+      if (lines + adds > 10) {
+        file++;
+        lines = 0;
+      }
+      if (file < 4) {
+        files[file] += (lines > 0 ? "\n" : "") + more;
+      } else {
+        text.append("\n").append(more);
+      }
+      lines += adds;
+    }
+    text.append("\n").append(names[14]);
+    files(text.toString(), files[1], files[2], files[3]);
+    w.run(0);
+    due(names[22] + " 8 8 8 14", () -> w.outLine(0) + " " + w.ofRun(4) + " " + w.ofOut(0, 4) + " " + w.ofRun(3) + " "
+        + (w.ofRun(2) + 14));
+    // one NAME that is DEFINED again and again
+    files(n("#include 1\n", 7) + "#define B 1\n#define A B\nA", n("#define A\n#undef A\n", 4) + "#define A\n#undef A");
+    w.run(0);
+    due("1 2 true true|", () -> out() + " " + w.ofOut(0, 4) + " " + w.hides(0, 2) + " " + w.hides(0, 3) + "|" + errors());
+    // some 500 WORDS of different spellings in one RUN
+    String ends = "ABCDFGHxyz0123_7";
+    String begins = "ABCDFGHxyz_";
+    files();
+    for (int i = 0; i < 33; i++) {
+      StringBuilder line = new StringBuilder();
+      for (int k = 0; k < 16 - i / 11 * 4; k++) {
+        line.append(k > 0 ? " " : "").append(begins.charAt(i % 11)).append(n("x", i / 11)).append(ends.charAt(k));
+      }
+      if (i % 9 == 0 && i < 27) {
+        types(i / 9, "#include " + (i / 9 + 1));
+      }
+      types(Math.min(i / 9, 3), line.toString());
+    }
+    due(396, () -> w.run(0));
+    TreeSet<String> different = new TreeSet<>();
+    for (int k = 0; k < w.ofRun(0); k++) {
+      different.add(w.outWord(k));
+    }
+    due("396 A0 zz", () -> different.size() + " " + different.first() + " " + different.last());
+    due(digest(0), () -> w.digest());
   }
 
   /** What digest() is by what the other calls answer. */
@@ -1583,6 +1671,16 @@ public final class BoundariesTest {
       due("14|true|true", () -> w.ofError(0, 0) + "|" + w.errorText(0).equals(word + ";") + "|" + w.outLine(0).equals(word + ";"));
       due(digest(0), () -> w.digest());
     }
+    run(pastes + lines("G(G(G(G(G(A)))))G(G(G(G(G(x)))))G(G(G(G(G(G(y))))))"));
+    due("true true true", () -> w.outWord(0).equals(n("A", 59049)) + " " + w.outWord(1).equals(n("x", 59049)) + " "
+        + w.outWord(2).equals(n("y", 531441)));
+    due(digest(0), () -> w.digest());
+    run(pastes + "#define H(x)#x\n#define B(x)H(x)\nB(G(G(G(G('x')))))");
+    due("32807 true", () -> w.ofOut(0, 7) + " " + w.outWord(0).equals("'" + n("''x''", 6561) + "'"));
+    // one in the other: the innermost "'" is typed 2 to the power of 18 times
+    run("#define F(x)#x\n#define A(x)B(F(x))\n#define B(x)C(F(x))\n#define C(x)D(F(x))\n#define D(x)G(F(x))\n"
+        + "#define G(x)H(F(x))\n#define H(x)F(x)\nA(A(A(1)))");
+    due("true", () -> w.outWord(0).equals(quoted("1", 1, 18)));
     due("1|", () -> run(pastes + "#if !G(G(G(G(0))))\n1\n#endif") + "|" + errors());
     due("8 6561", () -> {
       run(pastes + "#if G(G(G(G(1))))\n#endif");
