@@ -257,11 +257,11 @@ public final class Wordbefore {
   public int number(int file, int line, int k) throws IndexOutOfBoundsException, IllegalStateException {
     readWord(file, line, k);
     int spelling = read.spelling(k);
-    long value = texts.kind(spelling) == NUMBER ? texts.value(spelling) : NONE;
+    int value = texts.kind(spelling) == NUMBER ? texts.value(spelling) : NONE;
     if (value < 0) {
       throw new IllegalStateException("no NUMBER with a value");
     }
-    return (int) value;
+    return value;
   }
 
   public String plain(int file, int line) throws IndexOutOfBoundsException {
@@ -296,14 +296,14 @@ public final class Wordbefore {
   }
 
   private String spelled(int spelling) {
-    Texts.makeRoom(out, texts.length(spelling));
-    texts.spell(spelling, 0, out);
+    int most = Texts.makeRoom(out, texts.signsOf(spelling));
+    texts.spell(spelling, 0, most, out);
     return out.toString();
   }
 
   private String textOut(Row row, int first, int end) {
-    Texts.makeRoom(out, texts.signsOut(row, first, end));
-    texts.textOut(row, first, end, out);
+    int most = Texts.makeRoom(out, texts.signsOut(row, first, end));
+    texts.textOut(row, first, end, most, out);
     return out.toString();
   }
 
@@ -658,10 +658,10 @@ public final class Wordbefore {
 
   public String desk() {
     Row row = onDesk.row();
-    Texts.makeRoom(out, signsOfDesk());
-    texts.textOut(row, 0, onDesk.point(), out);
+    int most = Texts.makeRoom(out, signsOfDesk());
+    texts.textOut(row, 0, onDesk.point(), most, out);
     out.append('@');
-    texts.textOut(row, onDesk.point(), row.size(), out);
+    texts.textOut(row, onDesk.point(), row.size(), most, out);
     return out.toString();
   }
 
@@ -718,7 +718,7 @@ public final class Wordbefore {
       return false;
     }
     out.setLength(0);
-    texts.textOut(read, 0, read.size(), out);
+    texts.textOut(read, 0, read.size(), Texts.LONGEST, out);
     texts.copy(out);
     readAgain.clear();
     texts.readInto(readAgain, null, 0, 0, 0);
@@ -1199,13 +1199,18 @@ public final class Wordbefore {
 
     /** No WORD of a JOINED LINE has more signs, and so no NAME that is DEFINED. */
     private static final int SHORT = 512;
-    /** A text of more signs fits into no room in which calls are made; it ends there. */
-    private static final int MOST_SIGNS = 30000000;
+    /** No String holds more signs. */
+    static final int LONGEST = 2147483645;
+    /** Of a text that no String holds so many signs are returned: they take up hardly any room. */
+    private static final int OF_TOO_LONG = 1000;
     /** Signs are counted up to here, which is far beyond what an int holds. */
     private static final long MOST_COUNTED = 1L << 40;
     private static final int MOST_DOUBLINGS = 40;
     private static final int BUCKETS = 512;
     private static final int GREATEST = 2147483647;
+    /** So many digits behind one that is not 0 are beyond GREATEST by any base. */
+    private static final int TOO_MANY_DIGITS = 31;
+    private static final String DIGITS = "0123456789abcdefABCDEF";
 
     /** What is kept of each spelling; its signs and its parts end where those of the next one begin. */
     private static final int SIGNS_FROM = 0;
@@ -1241,6 +1246,8 @@ public final class Wordbefore {
     private final StringBuilder source = new StringBuilder();
     private final StringBuilder scratch = new StringBuilder();
     private int[] path = new int[16 * PATH];
+    /** What the signs of each spelling come to as digits of the base that was asked for last. */
+    private int[] comesTo = new int[16];
 
     Texts() {
       scratch.append(KNOWN).append(KNOWN_BEHIND);
@@ -1356,7 +1363,8 @@ public final class Wordbefore {
       }
     }
 
-    private long signsOf(int spelling) {
+    /** How many signs a spelling has. */
+    long signsOf(int spelling) {
       return spelling > 0 && spelling < count ? sizes[2 * spelling] : 0;
     }
 
@@ -1364,7 +1372,7 @@ public final class Wordbefore {
       return spelling > 0 && spelling < count ? sizes[2 * spelling + 1] : 0;
     }
 
-    /** How many signs a spelling has. */
+    /** How many signs a spelling has, as far as an int tells it. */
     int length(int spelling) {
       return spelling > 0 && spelling < count ? (int) Math.min(sizes[2 * spelling], GREATEST) : 0;
     }
@@ -1373,28 +1381,46 @@ public final class Wordbefore {
       return spelling > 0 && spelling < count ? (char) cells[spelling * WIDTH + FIRST_SIGN] : ' ';
     }
 
-    /** A sign of a spelling that is kept sign by sign. */
-    private char signAt(int spelling, int i) {
-      boolean kept = spelling > 0 && spelling < count && i >= 0;
-      int at = kept ? cells[spelling * WIDTH + SIGNS_FROM] + i : 0;
-      return kept && at < cells[(spelling + 1) * WIDTH + SIGNS_FROM] ? signs.charAt(at) : ' ';
+    private boolean isJoined(int spelling) {
+      return spelling > 0 && spelling < count && cells[spelling * WIDTH + FORM] == JOINED;
     }
 
-    /** Lays a spelling behind a text as it is inside of so many quotes: for each of them each "'" is typed twice. */
-    void spell(int spelling, int quotedTimes, StringBuilder into) {
+    /** Of a spelling that is JOINED the first part (0) or the second one (1). */
+    private int part(int spelling, int i) {
+      return parts[cells[spelling * WIDTH + PARTS_FROM] + i] / 2;
+    }
+
+    /** A sign of a spelling that is not IN_QUOTES; a blank, if there are not so many. */
+    private char signAt(int spelling, int i) {
+      int at = spelling;
+      long left = i;
+      for (int k = 0; k < count && isJoined(at); k++) {
+        long first = signsOf(part(at, 0));
+        at = part(at, left < first ? 0 : 1);
+        left -= left < first ? 0 : first;
+      }
+      return left >= 0 && left < signsOf(at) && cells[at * WIDTH + FORM] == SIGN_BY_SIGN
+          ? signs.charAt(cells[at * WIDTH + SIGNS_FROM] + (int) left) : ' ';
+    }
+
+    /**
+     * Lays a spelling behind a text as it is inside of so many quotes: for each of them each "'" is typed twice. The
+     * text has so many signs then at most.
+     */
+    void spell(int spelling, int quotedTimes, int most, StringBuilder into) {
       int begun = spelling > 0 && spelling < count ? spelling : NOTHING;
       int times = quotedTimes;
       int deep = 0;
-      for (int i = 0; i < 4 * MOST_SIGNS && (begun != NOTHING || deep > 0) && into.length() < MOST_SIGNS; i++) {
+      for (long i = 0; i < 4L * LONGEST && (begun != NOTHING || deep > 0) && into.length() < most; i++) {
         int at = (deep - 1) * PATH;
         if (begun != NOTHING && cells[begun * WIDTH + FORM] == SIGN_BY_SIGN) {
           for (int k = cells[begun * WIDTH + SIGNS_FROM]; k < cells[(begun + 1) * WIDTH + SIGNS_FROM]; k++) {
-            spellSign(signs.charAt(k), times, into);
+            spellSign(signs.charAt(k), times, most, into);
           }
           begun = NOTHING;
         } else if (begun != NOTHING) {
           if (cells[begun * WIDTH + FORM] == IN_QUOTES) {
-            spellSign('\'', times, into);
+            spellSign('\'', times, most, into);
           }
           deep++;
           beginParts(begun, times, deep);
@@ -1409,7 +1435,7 @@ public final class Wordbefore {
           times = path[at + QUOTED_TIMES] + (cells[path[at + WHOLE] * WIDTH + FORM] == IN_QUOTES ? 1 : 0);
         } else {
           if (cells[path[at + WHOLE] * WIDTH + FORM] == IN_QUOTES) {
-            spellSign('\'', path[at + QUOTED_TIMES], into);
+            spellSign('\'', path[at + QUOTED_TIMES], most, into);
           }
           deep--;
         }
@@ -1426,9 +1452,9 @@ public final class Wordbefore {
       path[at + QUOTED_TIMES] = quotedTimes;
     }
 
-    private static void spellSign(char c, int quotedTimes, StringBuilder into) {
+    private static void spellSign(char c, int quotedTimes, int most, StringBuilder into) {
       int doublings = c == '\'' ? Math.min(quotedTimes, MOST_DOUBLINGS) : 0;
-      for (long i = 0; i < 1L << doublings && into.length() < MOST_SIGNS; i++) {
+      for (long i = 0; i < 1L << doublings && into.length() < most; i++) {
         into.append(c);
       }
     }
@@ -1473,43 +1499,81 @@ public final class Wordbefore {
       }
     }
 
-    /** The VALUE of a NUMBER; NONE, if it has none. */
-    long value(int spelling) {
-      makeRoom(scratch, signsOf(spelling));
-      spell(spelling, 0, scratch);
-      int length = scratch.length();
-      int base = 10;
-      int from = 0;
-      if (length > 1 && scratch.charAt(0) == '0') {
-        char second = scratch.charAt(1);
-        base = second == 'x' ? 16 : second == 'b' ? 2 : 8;
-        from = base == 8 ? 1 : 2;
+    /** The VALUE of a NUMBER, however long; NONE, if it has none. */
+    int value(int spelling) {
+      char second = firstSign(spelling) == '0' ? signAt(spelling, 1) : ' ';
+      int base = second == ' ' ? 10 : second == 'x' ? 16 : second == 'b' ? 2 : 8;
+      long ahead = base == 16 || base == 2 ? 2 : 0;
+      if (isJoined(spelling)) {
+        reckonParts(spelling, base);
       }
-      long value = from < length ? 0 : NONE;
-      for (int i = from; i < length && value >= 0; i++) {
-        int digit = digit(scratch.charAt(i));
-        value = digit < base ? value * base + digit : NONE;
-        if (value > GREATEST) {
-          value = NONE;
+      int at = spelling;
+      int value = 0;
+      long behind = 0;
+      for (int i = 0; i < count && isJoined(at); i++) {
+        int first = part(at, 0);
+        int other = part(at, 1);
+        if (ahead >= signsOf(first)) {
+          ahead -= signsOf(first);
+          at = other;
+        } else {
+          value = sideBySide(comesTo[other], value, behind, base);
+          behind += signsOf(other);
+          at = first;
         }
       }
-      return value;
+      return sideBySide(digits(at, (int) ahead, base), value, behind, base);
     }
 
-    /** A text without signs, into which so many fit and hardly more: what it outgrew would take up room, too. */
-    static void makeRoom(StringBuilder text, long many) {
-      text.setLength((int) Math.min(many, MOST_SIGNS));
+    /** Sets comesTo of all spellings ahead of one; its parts are among these. */
+    private void reckonParts(int spelling, int base) {
+      if (spelling > comesTo.length) {
+        comesTo = new int[2 * spelling];
+      }
+      for (int i = 1; i < spelling; i++) {
+        comesTo[i] = isJoined(i)
+            ? sideBySide(comesTo[part(i, 0)], comesTo[part(i, 1)], signsOf(part(i, 1)), base)
+            : digits(i, 0, base);
+      }
+    }
+
+    /** What two rows of digits come to as one row; NONE, if one is NONE, or if it is more than a VALUE may be. */
+    private static int sideBySide(int first, int other, long signsOfOther, int base) {
+      if (first == NONE || other == NONE) {
+        return NONE;
+      }
+      long value = first;
+      long most = Math.min(signsOfOther, TOO_MANY_DIGITS);
+      for (int i = 0; i < most && value <= GREATEST; i++) {
+        value *= base;
+      }
+      value += other;
+      return value > GREATEST ? NONE : (int) value;
+    }
+
+    /** What the signs of a spelling from one on come to as digits; NONE, if one is none, there is none, or too much. */
+    private int digits(int spelling, int from, int base) {
+      int length = cells[spelling * WIDTH + FORM] == SIGN_BY_SIGN ? (int) signsOf(spelling) : 0;
+      int start = cells[spelling * WIDTH + SIGNS_FROM];
+      long value = from < length ? 0 : NONE;
+      for (int i = from; i < length && value >= 0; i++) {
+        int digit = DIGITS.indexOf(signs.charAt(start + i));
+        digit -= digit >= 16 ? 6 : 0;
+        value = digit >= 0 && digit < base ? value * base + digit : NONE;
+        value = value > GREATEST ? NONE : value;
+      }
+      return (int) value;
+    }
+
+    /**
+     * A text without signs, into which so many fit and hardly more: what it outgrew would take up room, too. Tells how
+     * many signs it may have.
+     */
+    static int makeRoom(StringBuilder text, long many) {
+      int most = many <= LONGEST ? LONGEST : OF_TOO_LONG;
+      text.setLength((int) Math.min(many, most));
       text.setLength(0);
-    }
-
-    private static int digit(char c) {
-      if (c >= '0' && c <= '9') {
-        return c - '0';
-      }
-      if (c >= 'a' && c <= 'f') {
-        return c - 'a' + 10;
-      }
-      return c >= 'A' && c <= 'F' ? c - 'A' + 10 : 99;
+      return most;
     }
 
     /** The text to be read, without signs. */
@@ -1652,17 +1716,18 @@ public final class Wordbefore {
         return keepParts(partCount + 2, JOINED, length, quotesOf(one) + quotesOf(other));
       }
       scratch.setLength(0);
-      spell(one, 0, scratch);
-      spell(other, 0, scratch);
+      spell(one, 0, LONGEST, scratch);
+      spell(other, 0, LONGEST, scratch);
       return keep(scratch, 0, scratch.length());
     }
 
-    void textOut(Row row, int first, int end, StringBuilder into) {
+    /** Lays TEXT OUT behind a text, which has so many signs then at most. */
+    void textOut(Row row, int first, int end, int most, StringBuilder into) {
       for (int i = first; i < end; i++) {
         if (i > first && !apart(row.spelling(i - 1), row.spelling(i))) {
           into.append(' ');
         }
-        spell(row.spelling(i), 0, into);
+        spell(row.spelling(i), 0, most, into);
       }
     }
 
@@ -1684,7 +1749,7 @@ public final class Wordbefore {
         if (i > first && (row.marks(i) != 0 || !apart(row.spelling(i - 1), row.spelling(i)))) {
           into.append(' ');
         }
-        spell(row.spelling(i), 1, into);
+        spell(row.spelling(i), 1, LONGEST, into);
       }
       into.append('\'');
     }
@@ -1709,7 +1774,7 @@ public final class Wordbefore {
         if (parts[partCount + i - first] % 2 == 1) {
           scratch.append(' ');
         }
-        spell(row.spelling(i), 1, scratch);
+        spell(row.spelling(i), 1, LONGEST, scratch);
       }
       scratch.append('\'');
       return keep(scratch, 0, scratch.length());
@@ -2720,7 +2785,7 @@ public final class Wordbefore {
           }
           wantsOperand = spelling != Texts.CLOSE;
         } else if (kind == NAME || kind == NUMBER) {
-          long value = kind == NAME ? 0 : texts.value(spelling);
+          int value = kind == NAME ? 0 : texts.value(spelling);
           if (value < 0) {
             badNumber = spelling;
             return BAD_NUMBER;
@@ -3166,7 +3231,7 @@ public final class Wordbefore {
 
     private void spellOrder() {
       text.setLength(0);
-      texts.textOut(read, 0, read.size(), text);
+      texts.textOut(read, 0, read.size(), Texts.LONGEST, text);
       orderText = texts.keep(text, 0, text.length());
     }
 
@@ -3255,7 +3320,7 @@ public final class Wordbefore {
           break;
         case Texts.ERROR:
           text.setLength(0);
-          texts.textOut(read, 2, read.size(), text);
+          texts.textOut(read, 2, read.size(), Texts.LONGEST, text);
           fail(TOLD_ERROR, texts.keep(text, 0, text.length()));
           break;
         default:
@@ -3374,12 +3439,11 @@ public final class Wordbefore {
       if (!areNumbers(row, 1, 1)) {
         return;
       }
-      long value = texts.value(row.spelling(0));
-      if (value >= FILES) {
+      int file = texts.value(row.spelling(0));
+      if (file >= FILES) {
         fail(BAD_ORDER);
         return;
       }
-      int file = (int) value;
       if (saidOnce(file)) {
         return;
       }
@@ -3394,14 +3458,14 @@ public final class Wordbefore {
       if (!areNumbers(row, 1, 2)) {
         return;
       }
-      long line = texts.value(row.spelling(0));
-      long file = row.size() > 1 ? texts.value(row.spelling(1)) : frame(TOLD_FILE);
+      int line = texts.value(row.spelling(0));
+      int file = row.size() > 1 ? texts.value(row.spelling(1)) : frame(TOLD_FILE);
       if (line > 9999 || file > 99) {
         fail(BAD_ORDER);
         return;
       }
-      setFrame(TOLD_BY, (int) line - frame(NEXT_LINE));
-      setFrame(TOLD_FILE, (int) file);
+      setFrame(TOLD_BY, line - frame(NEXT_LINE));
+      setFrame(TOLD_FILE, file);
     }
   }
 }

@@ -1028,6 +1028,7 @@ public final class BoundariesTest {
     due("2", () -> run("#define A defined\n#define F(x)x LINE\n#if A\n1\n#else\n2\n#endif\n#if F(A)\n#endif"));
     due("7@0.4 #if F(A)", () -> errors("#define A defined\n#define F(x)x B\n#if A\n#endif\n#if F(A)\n#endif"));
     values();
+    longNumbers();
     ranks();
     // "From left to right the first WORD that cannot go on so, or is a NUMBER without a value where an operand belongs, tells
     // which error it is."
@@ -1077,6 +1078,61 @@ public final class BoundariesTest {
     refused(INDEX, () -> w.number(0, 0, 4), () -> w.number(0, 0, -1), () -> w.number(0, 2, 0), () -> w.number(0, 1, 1));
     due(1, () -> w.number(0, 0, 1));
     due("1", () -> run("#define F(x,y)x##y\n#if F(0x,F)==017\n1\n#endif"));
+  }
+
+  /** A NUMBER of many "0" with what goes ahead of them and behind them, made by PASTING, as a condition. */
+  private static Object longNumber(String ahead, int nines, String behind) {
+    files("#define F(x)x##x##x##x##x##x##x##x##x\n#define G(x)F(x)\n#define C(x,y)D(x,y)\n#define D(x,y)x##y\n"
+        + lines("C(" + ahead + ",C(" + n("G(", nines) + "0" + n(")", nines) + "," + behind + "))"));
+    w.run(0);
+    return w.reckon(0, 4);
+  }
+
+  private static void longNumbers() {
+    // the same: "of all signs there", however many
+    due("true", () -> longNumber("", 4, "").equals(0) && w.outWord(0).equals(n("0", 6561)));
+    due("true", () -> longNumber("0x", 4, "0").equals(0) && w.outWord(0).equals("0x" + n("0", 6562)));
+    String[][] rows = {{"0", "1", "1"}, {"0", "17777777777", "2147483647"}, {"0", "20000000000", STATE}, {"0", "017", "15"},
+        {"0", "9999999999", STATE}, {"0", "12x", STATE}, {"0x", "7FFFFFFF", "2147483647"}, {"0x", "1F", "31"},
+        {"0x0", "1FFFFFFFF", STATE}, {"0x", "_", STATE}, {"0x", "xF", STATE}, {"0x", "FG", STATE}, {"0x1", "", STATE},
+        {"0b101", "1", STATE}, {"1", "", STATE}, {"2", "3", STATE}, {"0", "A", STATE}, {"0_", "1", STATE}, {"_", "1", "0"},
+        {"xF", "1", "0"}, {"0", "3F", STATE}, {"0x", "defined", STATE}, {"0x", "DFA12", "915986"}};
+    for (String[] row : rows) {
+      for (int nines = row[0].equals("1") || row[0].equals("0b101") ? 2 : 1; nines < 5; nines++) {
+        int many = nines;
+        due(String.join(" ", row[0], row[1], row[2]), () -> row[0] + " " + row[1] + " " + answer(() -> longNumber(row[0], many, row[1])));
+      }
+    }
+    // "0x" and the signs behind it come from different parts
+    String pastes = "#define F(x)x##x##x##x##x##x##x##x##x\n#define G(x)F(x)\n#define B(x)G(G(G(x)))\n#define C(x,y)D(x,y)\n#define D(x,y)x##y\n";
+    due("17", () -> {
+      files(pastes + lines("C(0,C(x,C(B(0),11)))"));
+      w.run(0);
+      return w.reckon(0, 5);
+    });
+    due("17", () -> {
+      files(pastes + lines("C(C(0,C(x,B(0))),11)"));
+      w.run(0);
+      return w.reckon(0, 5);
+    });
+    // ORDERS that ask for a VALUE
+    due("3||1", () -> run(pastes + "#if C(B(0),1)\n3\n#endif") + "|" + errors() + "|" + w.ofRun(8));
+    due("3||2", () -> run(pastes + "#if C(B(0),0)\n7\n#elif C(B(0),1)\n3\n#endif") + "|" + errors() + "|" + w.ofRun(8));
+    due("2|", () -> run(pastes + "#include C(B(0),1)", "2") + "|" + errors());
+    due("15 10|", () -> run(pastes + "#line C(B(0),17)C(B(0),12)\nLINE FILE") + "|" + errors());
+    String number = n("0", 729);
+    due("8@0.5 " + number + "_", () -> errors(pastes + "#if C(B(0),_)\n#endif"));
+    due("8@0.5 " + number + "3x", () -> errors(pastes + "#include C(B(0),3x)"));
+    due("8@0.5 " + number + "_", () -> errors(pastes + "#line 1 C(B(0),_)"));
+    due("1@0.5 #include C(B(0),7)", () -> errors(pastes + "#include C(B(0),7)"));
+    due("1@0.5 #line C(B(0),030000)", () -> errors(pastes + "#line C(B(0),030000)"));
+    // more signs than an int counts
+    files("#define F(x)" + n("x##", 9) + "x\n#define G(x)F(x)\n#define B(x)C(G(G(G(x))))\n#define C(x)D(G(G(G(x))))\n"
+        + "#define D(x)H(G(G(G(x))))\n#define H(x)G(G(G(x)))\n#define A(x,y)_(x,y)\n#define _(x,y)x##y", "A(B(0),1)\n"
+        + "A(0x,A(B(0),F))\nA(B(x),1)\nA(B(0),_)\nA(B(1),0)");
+    w.run(0);
+    due("1 15 0", () -> w.reckon(1, 0) + " " + w.reckon(1, 1) + " " + w.reckon(1, 2));
+    refused(STATE, () -> w.reckon(1, 3), () -> w.reckon(1, 4));
   }
 
   private static void ranks() {
@@ -1696,6 +1752,48 @@ public final class BoundariesTest {
         + "#define H(x)F(x x x x x x x x x)\nA(A(A(1)))");
     due("1 2 39 2147483647 true", () -> w.ofRun(0) + " " + w.ofOut(0, 0) + " " + w.ofOut(0, 8) + " " + w.ofOut(0, 7) + " "
         + w.isSound());
+    // no String holds it; what is returned then is free, but the calls end
+    w.load(0, 7);
+    w.finish();
+    due("true", () -> w.outWord(0).startsWith("'") && w.outLine(0).startsWith("'") && w.desk().startsWith("'")
+        && w.would(0, 7).startsWith("'"));
+    due("'1 1 1'|'1 1 1'@", () -> {
+      w.empty(0);
+      fill(0, "#define F(x)#x\nF(1 1 1)");
+      w.run(0);
+      w.load(0, 1);
+      w.finish();
+      return w.outWord(0) + "|" + w.desk();
+    });
+    longReturned();
+  }
+
+  private static boolean isMany(char c, int many, String text, String ahead, String behind) {
+    boolean good = text.length() == ahead.length() + many + behind.length() && text.startsWith(ahead) && text.endsWith(behind);
+    for (int i = 0; i < many && good; i++) {
+      good = text.charAt(ahead.length() + i) == c;
+    }
+    return good;
+  }
+
+  private static void longReturned() {
+    // all that is told of a spelling or of a TEXT OUT, however long
+    int many = 43046721;
+    files("#define F(x)x##x##x##x##x##x##x##x##x\n#define G(x)F(x)\n#define C(x)D(G(G(G(G(x)))))\n#define D(x)G(G(G(G(x))))\n"
+        + "#define H(x)x##;\n#define A(x)H(x)\nC(1)\n#if A(C(1))\n#endif");
+    w.run(0);
+    due("1 " + many, () -> w.ofOut(0, 0) + " " + w.ofOut(0, 7));
+    due(true, () -> isMany('1', many, w.outWord(0), "", ""));
+    due(true, () -> isMany('1', many, w.outLine(0), "", ""));
+    due(true, () -> isMany('1', many, w.errorText(0), "", ";"));
+    due("14 8", () -> w.ofError(0, 0) + " " + w.ofError(1, 0));
+    due(true, () -> isMany('1', many, w.errorText(1), "", ""));
+    due(true, () -> isMany('1', many, w.would(0, 6), "", ""));
+    w.load(0, 6);
+    w.put(9);
+    w.finish();
+    w.tail(51);
+    due(true, () -> isMany('1', many, w.desk(), "x ", "@''"));
   }
 
   public static void main(String[] args) {

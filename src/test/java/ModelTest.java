@@ -205,7 +205,11 @@ public final class ModelTest {
         return null;
       }
     }
-    java.math.BigInteger v = new java.math.BigInteger(digits, base);
+    String behindZeros = digits.replaceFirst("^0+", "");
+    if (behindZeros.length() > 40) {
+      return null;
+    }
+    java.math.BigInteger v = new java.math.BigInteger("0" + behindZeros, base);
     return v.bitLength() > 31 ? null : (Long) v.longValue();
   }
 
@@ -2052,6 +2056,55 @@ public final class ModelTest {
         && same("outLine(0)", () -> real.outLine(0), () -> outLine(0)) && growOnDesk(last);
   }
 
+  /** Calls that PASTE words from left to right, in any order. */
+  private String pasted(List<String> words) {
+    if (words.size() < 2) {
+      return words.isEmpty() ? "" : words.get(0);
+    }
+    int at = 1 + any(words.size() - 1);
+    return "A(" + pasted(words.subList(0, at)) + "," + pasted(words.subList(at, words.size())) + ")";
+  }
+
+  /** A NUMBER with many "0" somewhere in it. */
+  private String longNumber() {
+    List<String> words = new ArrayList<>();
+    String first = oneOf("0", "0", "0,x", "0,x", "0,xF", "0x", "0x", "0x0", "0x1F", "0,x1", "0b101", "1", "7", "x", "_", "");
+    words.addAll(List.of(first.split(",")));
+    words.add(oneOf("G(G(G(0)))", "G(G(G(0)))", "G(G(G(G(0))))", "G(G(0))", "G(0)", "B", "B", "G(A(B,0))", "G(G(G(1)))"));
+    for (int i = any(4); i > 0; i--) {
+      words.add(oneOf("0", "0", "1", "7", "12", "017", "3", "F", "A1", "0x", "x", "_", "9999999999", "B", "G(0)", "", ";", "'x'"));
+    }
+    return pasted(words);
+  }
+
+  /** NUMBERS that become long by being PASTED again and again; their VALUES are asked for. */
+  private boolean growNumbers() {
+    boolean good = same("empty(0)", () -> real.empty(0), () -> empty(0))
+        && typeAll(0, "#define F(x)x##" + oneOf("x##x##x", "x##x##x##x##x##x##x##x", "x##x##x##x##x##x##x##x##x", "0##0##0##x"))
+        && typeAll(0, "#define G(x)F(x)") && typeAll(0, "#define B G(G(G(0)))")
+        && typeAll(0, "#define A(x,y)C(x,y)") && typeAll(0, "#define C(x,y)x##y");
+    String order = oneOf("", "#if ", "#elif ", "#include ", "#line ", "#line 7 ");
+    if (order.equals("#elif ")) {
+      good = good && typeAll(0, "#if " + oneOf("0", "0", "0", "1", "B"));
+    }
+    int last = files.get(0).size();
+    good = good && typeAll(0, order + longNumber()) && typeAll(0, oneOf("LINE", "LINE FILE", "1"))
+        && same("run(0)", () -> real.run(0), () -> run(0));
+    for (int i = 0; i < 3 && good; i++) {
+      int k = i;
+      good = same("errorText(" + k + ")", () -> real.errorText(k), () -> errorText(k))
+          && same("ofError(" + k + ", 0)", () -> real.ofError(k, 0), () -> ofError(k, 0))
+          && same("outWord(" + k + ")", () -> real.outWord(k), () -> outWord(k))
+          && same("ofOut(" + k + ", 7)", () -> real.ofOut(k, 7), () -> ofOut(k, 7));
+    }
+    for (int i = 0; i < 3 && good; i++) {
+      good = same("empty(1)", () -> real.empty(1), () -> empty(1)) && typeAll(1, longNumber())
+          && same("reckon(1, 0)", () -> real.reckon(1, 0), () -> reckon(1, 0));
+    }
+    return good && same("reckon(0, " + last + ")", () -> real.reckon(0, last), () -> reckon(0, last))
+        && same("digest()", () -> real.digest(), () -> digest());
+  }
+
   private boolean growOnDesk(int line) {
     boolean good = same("would(0, " + line + ")", () -> real.would(0, line), () -> would(0, line))
         && same("ofWould(0, " + line + ", 2)", () -> real.ofWould(0, line, 2), () -> ofWould(0, line, 2))
@@ -2140,7 +2193,7 @@ public final class ModelTest {
   private void play(boolean whole, boolean grows) {
     boolean good = same("digest()", () -> real.digest(), () -> digest());
     while (good && grows && calls.size() < 360) {
-      good = growTexts();
+      good = any(2) == 0 ? growTexts() : growNumbers();
     }
     while (good && calls.size() < 512 && !whole) {
       int way = any(100);
