@@ -1473,10 +1473,13 @@ public final class Wordbefore {
 
     /** Less than 0, 0 or more, as one spelling is ahead of another by the signs' codes; both are SHORT. */
     int compare(int one, int other) {
+      boolean kept = one > 0 && one < count && other > 0 && other < count;
+      int start = kept ? cells[one * WIDTH + SIGNS_FROM] : 0;
+      int otherStart = kept ? cells[other * WIDTH + SIGNS_FROM] : 0;
       int length = length(one);
       int otherLength = length(other);
       for (int i = 0; i < length && i < otherLength; i++) {
-        int apart = signAt(one, i) - signAt(other, i);
+        int apart = signs.charAt(start + i) - signs.charAt(otherStart + i);
         if (apart != 0) {
           return apart;
         }
@@ -1551,13 +1554,16 @@ public final class Wordbefore {
       return value > GREATEST ? NONE : (int) value;
     }
 
-    /** What the signs of a spelling from one on come to as digits; NONE, if one is none, there is none, or too much. */
+    /**
+     * What the signs of a spelling that is kept sign by sign come to as digits, from one of them on; NONE, if one is no
+     * digit, if there are none, or if it is more than a VALUE may be.
+     */
     private int digits(int spelling, int from, int base) {
-      int length = cells[spelling * WIDTH + FORM] == SIGN_BY_SIGN ? (int) signsOf(spelling) : 0;
-      int start = cells[spelling * WIDTH + SIGNS_FROM];
-      long value = from < length ? 0 : NONE;
-      for (int i = from; i < length && value >= 0; i++) {
-        int digit = DIGITS.indexOf(signs.charAt(start + i));
+      int start = cells[spelling * WIDTH + SIGNS_FROM] + from;
+      int end = cells[(spelling + 1) * WIDTH + SIGNS_FROM];
+      long value = start < end ? 0 : NONE;
+      for (int i = start; i < end && value >= 0; i++) {
+        int digit = DIGITS.indexOf(signs.charAt(i));
         digit -= digit >= 16 ? 6 : 0;
         value = digit >= 0 && digit < base ? value * base + digit : NONE;
         value = value > GREATEST ? NONE : value;
