@@ -1387,7 +1387,8 @@ public final class Wordbefore {
 
     /** Of a spelling that is JOINED the first part (0) or the second one (1). */
     private int part(int spelling, int i) {
-      return parts[cells[spelling * WIDTH + PARTS_FROM] + i] / 2;
+      int at = cells[spelling * WIDTH + PARTS_FROM] + i;
+      return at < parts.length ? parts[at] / 2 : NOTHING;
     }
 
     /** A sign of a spelling that is not IN_QUOTES; a blank, if there are not so many. */

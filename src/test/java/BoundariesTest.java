@@ -1115,6 +1115,12 @@ public final class BoundariesTest {
       w.run(0);
       return w.reckon(0, 5);
     });
+    // digits that are not 0 in different parts
+    due("15 31", () -> {
+      files(pastes + lines("C(0,C(C(B(0),1),7))") + "\n" + lines("C(0x,C(C(B(0),1),F))"));
+      w.run(0);
+      return w.reckon(0, 5) + " " + w.reckon(0, 6);
+    });
     // ORDERS that ask for a VALUE
     due("3||1", () -> run(pastes + "#if C(B(0),1)\n3\n#endif") + "|" + errors() + "|" + w.ofRun(8));
     due("3||2", () -> run(pastes + "#if C(B(0),0)\n7\n#elif C(B(0),1)\n3\n#endif") + "|" + errors() + "|" + w.ofRun(8));
