@@ -79,6 +79,25 @@ public final class RoomTest {
     }
   }
 
+  /** VALUES of a NUMBER of 40353608 signs, and what else is told of it without its signs. */
+  private static void longNumbers() {
+    Wordbefore w = new Wordbefore();
+    line(w, 60, 72, 9, 34, 9, 34, 9, 34, 9, 34, 9, 34, 9, 34, 9);
+    line(w, 60, 2, 83, 90, 9, 29);
+    line(w, 60, 3, 83, 2, 28, 2, 28, 2, 83, 29, 29);
+    line(w, 60, 4, 83, 9, 34, 18);
+    line(w, 60, 5, 83, 4, 83);
+    line(w, 5, 28, 3, 28, 3, 28, 3, 28, 17, 29, 29, 29, 29);
+    for (int i = 0; i < 200; i++) {
+      w.run(0);
+      if (w.reckon(0, 5) != 1 || w.ofOut(0, 7) != 40353608) {
+        wrong++;
+        System.out.println("reckon() or ofOut() of a long NUMBER is not as due");
+        return;
+      }
+    }
+  }
+
   interface Run {
     void play();
   }
@@ -101,6 +120,7 @@ public final class RoomTest {
     new Wordbefore();
     fits("a new object", () -> new Wordbefore(), ROOM / 50);
     fits("long texts", () -> longTexts(), ROOM);
+    fits("long numbers", () -> longNumbers(), ROOM / 10);
     fits("many calls", () -> manyCalls(), ROOM / 10);
     if (wrong > 0) {
       System.exit(1);
